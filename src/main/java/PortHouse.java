@@ -27,7 +27,7 @@ public final class PortHouse {
     private final Ledger ledger;
     private final Declarations declarations;
 
-    /** A house with so many bays, tiers of them, rows of the yard, boxes upon another there, and what a ground bears. */
+    /** So many bays, tiers of them, rows of the yard, boxes one upon the other there, and what a ground bears. */
     public PortHouse(int bays, int tiers, int rows, int high, int bears) {
         hold = new Hold(heldTo(bays, 12), heldTo(tiers, 4));
         yard = new Yard(hold, heldTo(rows, 20), heldTo(high, 8), heldTo(bears, 400));
@@ -1416,13 +1416,15 @@ public final class PortHouse {
             boxes = n;
             tiers = high;
             round++;
-            size = 0;
-            goal = NONE;
             int code = 0;
             for (int i = 0; i < n; i++) {
                 code |= place[i] << 4 * i;
             }
-            reach(code, NONE, 0);
+            seen[code] = round;
+            codes[0] = code;
+            parents[0] = NONE;
+            size = 1;
+            goal = isEnd(code) ? 0 : NONE;
             for (int i = 0; i < size && goal == NONE; i++) {
                 goOnFrom(i);
             }
@@ -1430,14 +1432,15 @@ public final class PortHouse {
         }
 
         // States are reached in the order of their first ways, so the first end that is reached has the first way.
-        private void reach(int code, int parent, int move) {
+        private void reach(int state, int i, int from, int to, int at) {
+            int code = codes[state] & ~(15 << 4 * i) | at << 4 * i;
             if (goal != NONE || seen[code] == round || size >= STATES) {
                 return;
             }
             seen[code] = round;
             codes[size] = code;
-            parents[size] = parent;
-            moves[size] = move;
+            parents[size] = state;
+            moves[size] = i * 64 + from * 8 + to;
             if (isEnd(code)) {
                 goal = size;
             }
@@ -1494,22 +1497,17 @@ public final class PortHouse {
             int i = top[from];
             goToStacks(state, i, from, from);
             if (leaves[i] && (ahead[i] & ~ashore) == 0) {
-                reachBy(state, i, from, Hold.ASHORE, ASHORE_PLACE);
+                reach(state, i, from, Hold.ASHORE, ASHORE_PLACE);
             }
-            reachBy(state, i, from, Hold.ASIDE, ASIDE_PLACE);
+            reach(state, i, from, Hold.ASIDE, ASIDE_PLACE);
         }
 
         private void goToStacks(int state, int i, int from, int own) {
             for (int to = 0; to < Hold.STACKS; to++) {
                 if (to != own && height[to] < tiers) {
-                    reachBy(state, i, from, to, placeOf(to, height[to]));
+                    reach(state, i, from, to, placeOf(to, height[to]));
                 }
             }
-        }
-
-        private void reachBy(int state, int i, int from, int to, int at) {
-            int code = codes[state] & ~(15 << 4 * i) | at << 4 * i;
-            reach(code, state, i * 64 + from * 8 + to);
         }
 
         private int trace() {

@@ -1281,7 +1281,8 @@ public final class Model {
         Reservation r = reservations.get(reservation - 1);
         index(what < 4 || what % 4 < r.parts.size());
         long covers = r.parts.stream().mapToLong(p -> p[1]).sum();
-        return what < 4 ? new long[] {r.holder, covers, r.ended, r.parts.size()}[what] : r.parts.get(what % 4)[what / 4 - 1];
+        long[] first = {r.holder, covers, r.ended, r.parts.size()};
+        return what < 4 ? first[what] : r.parts.get(what % 4)[what / 4 - 1];
     }
 
     // NONE if it can't be covered, 0 if the desk failed.
@@ -1352,7 +1353,7 @@ public final class Model {
     }
 
     public boolean entry(int batch, int account, long cents) {
-        if (!isOpen(batch) || !in(account, 0, 11) || cents == 0 || Math.abs(cents) > 1000000000L || cents == Long.MIN_VALUE
+        if (!isOpen(batch) || !in(account, 0, 11) || cents == 0 || cents > 1000000000L || cents < -1000000000L
                 || batches.get(batch).entries.size() == 20) {
             return false;
         }
@@ -1515,7 +1516,8 @@ public final class Model {
     public int batchOf(int batch, int what) {
         index(in(batch, 0, batches.size() - 1) && in(what, 0, 6));
         Batch b = batches.get(batch);
-        return new int[] {b.state, b.entries.size(), b.reverses, b.reversedBy, b.failing ? 1 : 0, b.valid, b.known}[what];
+        int fails = b.failing ? 1 : 0;
+        return new int[] {b.state, b.entries.size(), b.reverses, b.reversedBy, fails, b.valid, b.known}[what];
     }
 
     // ==== H
@@ -1601,7 +1603,8 @@ public final class Model {
     }
 
     private static BigDecimal partOf(long whole, long has, long amount) {
-        return BigDecimal.valueOf(whole).multiply(BigDecimal.valueOf(has)).divideToIntegralValue(BigDecimal.valueOf(amount));
+        BigDecimal all = BigDecimal.valueOf(whole).multiply(BigDecimal.valueOf(has));
+        return all.divideToIntegralValue(BigDecimal.valueOf(amount));
     }
 
     private long reckoned(Declaration d, int known) {
@@ -1710,9 +1713,12 @@ public final class Model {
             return d.amounts.getOrDefault(what - 15, -1L);
         }
         Course c = d.ask == null ? null : course(d.ask.order);
+        long order = c == null ? NONE : d.ask.order;
+        long asked = c == null ? 0 : d.ask.amount;
+        long has = c == null ? 0 : c.has.getOrDefault(d.ask, 0L);
+        long treated = c == null ? NONE : c.treated.getOrDefault(d.ask, NONE);
         return new long[] {d.goods, d.holder, d.desk, d.code, d.land, d.day, d.price, d.state, d.duty, d.reservation,
-            d.batch, c == null ? NONE : d.ask.order, c == null ? 0 : d.ask.amount,
-            c == null ? 0 : c.has.getOrDefault(d.ask, 0L), c == null ? NONE : c.treated.getOrDefault(d.ask, NONE)}[what];
+            d.batch, order, asked, has, treated}[what];
     }
 
     public int count(int what) {

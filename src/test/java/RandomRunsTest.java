@@ -96,8 +96,9 @@ public final class RandomRunsTest {
         told.add(name + Arrays.toString(args) + " " + got);
         if (!got.equals(due) && agrees) {
             agrees = false;
-            System.out.println("house " + Arrays.toString(size) + ": " + name + Arrays.toString(args) + " answered " + got
-                    + ", due is " + due + ", behind " + told.subList(Math.max(0, told.size() - 40), told.size() - 1));
+            List<String> ahead = told.subList(Math.max(0, told.size() - 40), told.size() - 1);
+            System.out.println("house " + Arrays.toString(size) + ": " + name + Arrays.toString(args) + " answered "
+                    + got + ", due is " + due + ", behind " + ahead);
         }
         return got instanceof Number ? ((Number) got).longValue() : got.equals(true) ? 1 : 0;
     }
@@ -106,7 +107,11 @@ public final class RandomRunsTest {
         Object[] all = new Object[args.length];
         for (int i = 0; i < args.length; i++) {
             Class<?> type = m.getParameterTypes()[i];
-            all[i] = type == int.class ? (Object) (int) args[i] : type == boolean.class ? (Object) (args[i] != 0) : args[i];
+            if (type == int.class) {
+                all[i] = (int) args[i];
+            } else {
+                all[i] = type == boolean.class ? (Object) (args[i] != 0) : args[i];
+            }
         }
         return all;
     }
@@ -282,7 +287,8 @@ public final class RandomRunsTest {
                 call("release", box);
                 break;
             case 7:
-                call("part", box, chance(60) && box >= 0 && box < count(0) ? 1000L * house.where((int) box, 5) : between(1, 9000));
+                boolean whole = chance(60) && box >= 0 && box < count(0);
+                call("part", box, whole ? 1000L * house.where((int) box, 5) : between(1, 9000));
                 break;
             case 8:
                 call("withdraw", box);

@@ -63,7 +63,9 @@ public final class SecuritiesTest {
             {0, 1000000001L, 1, 1, 0}, {0, 1, -1, 1, 0}, {0, 1, 2, 1, 0}, {0, 1, 0, 0, 0}, {0, 1, 101, 101, 0},
             {0, 1, 1, 101, 0}, {0, 1, 1, 1, -1}, {0, 1, 1, 1, 1001}, {0, 1, 0, -1, 0}};
         for (long[] a : wrong) {
-            Check.thrown(Check.ARGUMENT, () -> x.guarantee((int) a[0], a[1], (int) a[2], (int) a[3], false, (int) a[4]));
+            int up = (int) a[2];
+            int down = (int) a[3];
+            Check.thrown(Check.ARGUMENT, () -> x.guarantee((int) a[0], a[1], up, down, false, (int) a[4]));
         }
         Check.due(2, x.count(20));
     }
