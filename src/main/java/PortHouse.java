@@ -1158,10 +1158,6 @@ public final class PortHouse {
             Arrays.fill(planLength, NONE);
         }
 
-        boolean isAshore(int box) {
-            return stack[box] == ASHORE;
-        }
-
         boolean isHere(int box) {
             return stack[box] == ASHORE && stay[box] == 0;
         }

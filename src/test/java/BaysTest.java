@@ -153,6 +153,17 @@ public final class BaysTest {
         Check.due(true, x.before(3, 0));
         Check.due(true, x.before(3, 1));
         Check.due(false, x.before(3, 1));
+        PortHouse y = new PortHouse(1, 4, 4, 4, 60);
+        for (int b = 0; b < 4; b++) {
+            plain(y, 0, b % 3, 0);
+        }
+        Check.due(true, y.before(0, 1));
+        Check.due(false, y.before(1, 0));
+        Check.due(true, y.before(1, 2));
+        Check.due(true, y.before(2, 3));
+        Check.due(false, y.before(3, 0));
+        Check.due(false, y.before(2, 0));
+        Check.due(true, y.before(0, 3));
     }
 
     private static void planOrder() {
@@ -225,6 +236,15 @@ public final class BaysTest {
         x.before(1, 2);
         x.before(2, 3);
         Check.due("3:0>1 2:0>1 1:0>1 0:0>3 1:1>3 2:1>3 3:1>3", told(x, 0));
+        Check.topic("promise 4, the longest plan that needs make");
+        PortHouse z = new PortHouse(1, 4, 4, 4, 60);
+        for (int b = 0; b < 4; b++) {
+            plain(z, 0, 1, 0);
+        }
+        z.before(2, 1);
+        z.before(3, 2);
+        z.before(0, 3);
+        Check.due(8, z.plan(0));
         PortHouse y = new PortHouse(1, 1, 4, 4, 60);
         plain(y, 0, 0, 0);
         plain(y, 0, 1, 0);

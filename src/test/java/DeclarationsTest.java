@@ -34,6 +34,7 @@ public final class DeclarationsTest {
         claim();
         claimInParts();
         claimRefused();
+        noRoomInTheLedger();
         correct();
         correctRefused();
         cancel();
@@ -564,6 +565,66 @@ public final class DeclarationsTest {
         t.facts(d, 7, 1, 700, 1, NONE);
         Check.due(1000, t.x.security(1, 1));
         Check.due(700, t.x.claim(d, 6));
+        int least = t.declared(3, 1);
+        t.x.assess(least, 0);
+        Check.due(1, t.x.claim(least, 6));
+    }
+
+    // So many entries in the ledger, in batches of 20 and one of what is left (2 at least).
+    private static void fill(PortHouse x, int entries) {
+        int left = entries;
+        while (left > 0) {
+            int n = left == 21 || left == 22 ? 10 : Math.min(20, left);
+            int b = x.batch(0, 0);
+            for (int i = 1; i < n; i++) {
+                x.entry(b, 10, 1);
+            }
+            x.entry(b, 11, 1 - n);
+            Check.due(1, x.post(b));
+            left -= n;
+        }
+    }
+
+    private static void noRoomInTheLedger() {
+        Check.topic("promises 82 to 84, room for the entries of a declaration's batch");
+        DeclarationsTest t = new DeclarationsTest();
+        int d = t.secured(3, 700);
+        int e = t.declared(3, 100);
+        t.x.assess(e, 0);
+        fill(t.x, 3996);
+        Check.due(199 + 1, t.x.count(28));
+        t.x.pay(e, 0);
+        Tape.rate(t.x, 1, "90%");
+        Check.due(-10, t.x.correct(e, 0));
+        Check.due(4000, t.x.count(29));
+        Tape.rate(t.x, 1, "80%");
+        Check.thrown(Check.STATE, () -> t.x.correct(e, 0));
+        Check.thrown(Check.STATE, () -> t.x.pay(d, 0));
+        Check.topic("promises 82 to 84, room for one entry alone");
+        DeclarationsTest u = new DeclarationsTest();
+        int f = u.secured(3, 700);
+        int g = u.declared(3, 100);
+        u.x.assess(g, 0);
+        u.x.pay(g, 0);
+        Tape.rate(u.x, 1, "90%");
+        fill(u.x, 3999 - 2);
+        Check.thrown(Check.STATE, () -> u.x.pay(f, 0));
+        Check.thrown(Check.STATE, () -> u.x.claim(f, 0));
+        Check.thrown(Check.STATE, () -> u.x.correct(g, 0));
+        u.facts(f, 7, 1, 700, 1, NONE);
+        u.facts(g, 7, 2, 100);
+        Check.topic("promise 83, room for the two entries of a claim, not for three");
+        DeclarationsTest v = new DeclarationsTest();
+        v.measure(0, "100%");
+        v.x.guarantee(3, 100, 1, 10, false, 0);
+        int h = v.declared(3, 100);
+        int i = v.declared(3, 200);
+        v.x.assess(h, 0);
+        v.x.assess(i, 0);
+        fill(v.x, 3998);
+        Check.thrown(Check.STATE, () -> v.x.claim(i, 0));
+        Check.due(100, v.x.claim(h, 0));
+        Check.due(4000, v.x.count(29));
     }
 
     private static void correct() {

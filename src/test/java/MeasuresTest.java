@@ -20,6 +20,7 @@ public final class MeasuresTest {
         apply();
         applyDays();
         applyBeats();
+        applyUnderGreatCodes();
         applyOrder();
         applyBounds();
         listed();
@@ -167,6 +168,10 @@ public final class MeasuresTest {
         Check.thrown(Check.ARGUMENT, () -> x.row(12, 0, 300, 299, 0, 0, 0));
         Check.due(1, x.apply(129999, 0, 299, 0));
         Check.due(300, x.listed(0));
+        Check.due(1, Tape.rate(x, 300, "5%"));
+        Check.due(true, x.exclude(300, 1));
+        Check.due(true, x.condition(300, 1));
+        Check.due(2, x.end(300, 299, 1));
     }
 
     private static void exclude() {
@@ -341,6 +346,24 @@ public final class MeasuresTest {
             x.exclude(4, 3);
             Check.due("1", withoutRowFive(x));
         }
+    }
+
+    private static void applyUnderGreatCodes() {
+        Check.topic("promise 39, the greatest and the least codes of a length");
+        PortHouse x = house();
+        x.row(99, 3, 0, OPEN, 0, 9, 0);
+        x.row(9999, 3, 0, OPEN, 0, 5, 0);
+        x.row(10, 3, 0, OPEN, 0, 9, 0);
+        x.row(1000, 3, 0, OPEN, 0, 5, 0);
+        x.row(100000, 3, 0, OPEN, 0, 0, 0);
+        x.row(99, 3, 0, OPEN, 4, 9, 0);
+        x.row(9999, 3, 0, OPEN, 5, 5, 0);
+        x.row(999999, 3, 0, OPEN, 6, 5, 0);
+        Check.due("2 6 7 8", applying(x, 999999, 3, 0, 0));
+        Check.due("1 6", applying(x, 999899, 3, 0, 0));
+        Check.due("5", applying(x, 100000, 3, 0, 0));
+        Check.due("4", applying(x, 100001, 3, 0, 0));
+        Check.due("3", applying(x, 100100, 3, 0, 0));
     }
 
     private static String withoutRowFive(PortHouse x) {

@@ -123,6 +123,11 @@ public final class RatesTest {
         Check.due("5% + 2/A", Tape.printed(x, 1));
         Check.due(1, Tape.rate(x, 1, "7%"));
         Check.due("7%", Tape.printed(x, 1));
+        Check.topic("promise 42, again and again");
+        for (int i = 0; i < 50; i++) {
+            Check.due(1, Tape.rate(x, 1, "step(1:1=1,2=2,3=3,4=4,5=5,6=6)"));
+        }
+        Check.due("step(1: 1=1, 2=2, 3=3, 4=4, 5=5, 6=6)", Tape.printed(x, 1));
     }
 
     private static void badWordsAndNumbers() {
@@ -419,6 +424,8 @@ public final class RatesTest {
         worth(11000000, steps, 250, 0, 0);
         worth(11000000, steps, 1, 0, 0);
         worth(11000000, steps, 0, 0, 0);
+        worth(0, "step(1:1000=5)", 1, 0, 0);
+        worth(5000000, "step(1:1000=5)", 0, 0, 0);
         worth(5000000, "step(1:0=5)", 100000000L, 0, 0);
         worth(999999000000L, "step(999999:999999=999999)", 99, 0, 0);
         worth(0, "step(999998:999999=999999)", 100, 0, 0);

@@ -273,6 +273,40 @@ public final class YardTest {
         Quay.on(x, 3, 20, 5, 2);
         Quay.on(x, 2, 20, 5, 2);
         Check.due(2, x.choose(box));
+        for (int least = 0; least < 2; least++) {
+            tieOfReserved(least);
+            tieOfShip(least);
+            tieOfLightest(least);
+        }
+    }
+
+    // 40 + 12 on a row, and 40 + 12 - 2 * 15 + 30 on one that is reserved: the least, whichever it is.
+    private static void tieOfReserved(int one) {
+        Check.topic("promise 15, 52 on row " + one + " and on the reserved one");
+        PortHouse x = new PortHouse(1, 4, 2, 4, 100);
+        Quay.on(x, one, 20, 9, 1);
+        Quay.on(x, 1 - one, 20, 5, 1);
+        Quay.on(x, 1 - one, 20, 5, 1);
+        x.reserve(1 - one, 1);
+        Check.due(0, x.choose(Quay.loose(x, 0, 20, 9, 1)));
+    }
+
+    // 40 on a row of another ship, and 40 + 12 - 4 * 3 on one of its ship.
+    private static void tieOfShip(int one) {
+        Check.topic("promise 15, 40 on row " + one + " and on the one of its ship");
+        PortHouse x = new PortHouse(1, 4, 2, 4, 100);
+        Quay.on(x, one, 16, 9, 2);
+        Quay.on(x, 1 - one, 20, 9, 1);
+        Check.due(0, x.choose(Quay.loose(x, 0, 16, 9, 1)));
+    }
+
+    // 40 - 24 on a row with a much heavier top one, and 40 - 15 - 3 * 3 on one with a box that leaves sooner.
+    private static void tieOfLightest(int one) {
+        Check.topic("promise 15, 16 on row " + one + " and on the one whose box leaves sooner");
+        PortHouse x = new PortHouse(1, 4, 2, 4, 100);
+        Quay.on(x, one, 40, 9, 2);
+        Quay.on(x, 1 - one, 13, 5, 2);
+        Check.due(0, x.choose(Quay.loose(x, 0, 10, 9, 1)));
     }
 
     private static void chooseNone() {
