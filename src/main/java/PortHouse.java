@@ -3619,8 +3619,8 @@ public final class PortHouse {
 
         // ---- the duty
 
+        // A rate that asks for this unit alone, or for none.
         long valueWithOne(Rate rate, long price, int unit, long amount) {
-            Arrays.fill(amounts, 0);
             amounts[unit] = amount;
             return rate.valueAt(price, amounts, values);
         }

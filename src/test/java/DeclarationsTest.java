@@ -332,6 +332,16 @@ public final class DeclarationsTest {
         Check.due(0, t.x.duty(t.declared(0, 99), 0));
         t.measure(7, "1% - 2%");
         Check.due(2, t.x.duty(t.declared(0, 100), 0));
+        Check.topic("promise 80, a micro below the half, and the half");
+        DeclarationsTest u = new DeclarationsTest();
+        u.measure(0, "0.001/A");
+        int d = u.declared(0, 0);
+        u.x.amount(d, 0, 499999);
+        Check.due(0, u.x.duty(d, 0));
+        u.x.amount(d, 0, 500000);
+        Check.due(1, u.x.duty(d, 0));
+        u.x.amount(d, 0, 1499999);
+        Check.due(1, u.x.duty(d, 0));
     }
 
     private static void dutyAsKnown() {
@@ -567,7 +577,10 @@ public final class DeclarationsTest {
         Check.due(700, t.x.claim(d, 6));
         int least = t.declared(3, 1);
         t.x.assess(least, 0);
+        Check.due(300, t.x.security(1, 1));
         Check.due(1, t.x.claim(least, 6));
+        Check.due(299, t.x.security(1, 1));
+        Check.due(701, t.x.security(1, 8));
     }
 
     // So many entries in the ledger, in batches of 20 and one of what is left (2 at least).
@@ -625,6 +638,18 @@ public final class DeclarationsTest {
         Check.thrown(Check.STATE, () -> v.x.claim(i, 0));
         Check.due(100, v.x.claim(h, 0));
         Check.due(4000, v.x.count(29));
+        Check.topic("promise 83, room for the two entries of a claim that gets nothing");
+        DeclarationsTest w = new DeclarationsTest();
+        w.measure(0, "100%");
+        w.x.guarantee(3, 100, 1, 10, false, 0);
+        int j = w.declared(3, 600);
+        int k = w.declared(3, 400);
+        w.x.assess(j, 0);
+        w.x.assess(k, 0);
+        fill(w.x, 3995);
+        Check.due(100, w.x.claim(j, 0));
+        Check.due(0, w.x.claim(k, 0));
+        Check.due(4000, w.x.count(29));
     }
 
     private static void correct() {

@@ -134,6 +134,9 @@ public final class RatesTest {
         bad(0, "x");
         bad(0, "fre");
         bad(0, "freed");
+        bad(0, "freez");
+        bad(0, "freea");
+        bad(5, "free zz");
         bad(0, "minx(1%,2%)");
         bad(0, "FREE");
         bad(2, "  Free");
@@ -339,6 +342,8 @@ public final class RatesTest {
         prints("0%", "0%");
         prints("0.5%", "00.50 %");
         prints("0.05%", "0.05%");
+        prints("0.001%", "0.001%");
+        prints("7.1/B", "7.100/B");
         prints("10.005%", "10.005%");
         prints("99999.999/H", "99999.999 / H");
         prints("100/A", "100/A");
