@@ -48,9 +48,9 @@ public final class NewObjectTest {
         bearsFourHundred();
     }
 
-    // Eight boxes of 50 would need more than 40 each, so the ground's bound shows by ten rows' worth of weight.
+    // No row weighs more than eight boxes of 40, so that all of these stand on a ground held to 400.
     private static void bearsFourHundred() {
-        Check.topic("promise 1, a ground that bears 320 of eight boxes");
+        Check.topic("promise 1, a ground that bears 320");
         PortHouse x = new PortHouse(12, 4, 1, 8, 5000);
         for (int b = 0; b < 8; b++) {
             x.box(b / 4, b % 3, 0, 0, 40, 8 - b, 1);
