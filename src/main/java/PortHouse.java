@@ -1228,7 +1228,7 @@ public final class PortHouse {
             return true;
         }
 
-        // Only boxes that lie in the bay still can make a ring: what is to go ahead of them is ashore no sooner.
+        // A box goes ashore behind those ahead of it: no way between two that still lie there leads over one ashore.
         private boolean isAheadOf(int box, int other) {
             int n = gather(bay[box]);
             int reached = 1 << indexOf(box, n);
