@@ -650,6 +650,24 @@ public final class DeclarationsTest {
         Check.due(100, w.x.claim(j, 0));
         Check.due(0, w.x.claim(k, 0));
         Check.due(4000, w.x.count(29));
+        lastRoomInTheLedger();
+    }
+
+    private static void lastRoomInTheLedger() {
+        Check.topic("promises 82, 83, the last two entries: for a payment, not for a claim that needs three");
+        DeclarationsTest t = new DeclarationsTest();
+        t.measure(0, "100%");
+        t.x.guarantee(3, 1, 1, 10, false, 0);
+        t.x.guarantee(4, 50, 1, 1, false, 0);
+        int three = t.declared(3, 5);
+        int two = t.declared(4, 50);
+        t.x.assess(three, 0);
+        t.x.assess(two, 0);
+        fill(t.x, 3998);
+        Check.thrown(Check.STATE, () -> t.x.claim(three, 0));
+        int batches = t.x.count(28);
+        Check.due(batches, t.x.pay(two, 0));
+        Check.due(4000, t.x.count(29));
     }
 
     private static void correct() {

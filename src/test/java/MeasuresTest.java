@@ -364,6 +364,8 @@ public final class MeasuresTest {
         Check.due("5", applying(x, 100000, 3, 0, 0));
         Check.due("4", applying(x, 100001, 3, 0, 0));
         Check.due("3", applying(x, 100100, 3, 0, 0));
+        Check.due(9, x.row(999999, 3, 0, OPEN, 0, 0, 0));
+        Check.due("9 6 7 8", applying(x, 999999, 3, 0, 0));
     }
 
     private static String withoutRowFive(PortHouse x) {
