@@ -59,7 +59,8 @@ final class Check {
         }
         StackTraceElement at = null;
         for (StackTraceElement e : new Throwable().getStackTrace()) {
-            if (!e.getClassName().equals("Check")) {
+            if (!e.getClassName().equals("Check") && !e.getClassName().startsWith("Edge$")
+                    && !e.getClassName().equals("Edge")) {
                 at = e;
                 break;
             }

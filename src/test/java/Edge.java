@@ -1,0 +1,79 @@
+/**
+ * A boundary case: the promise and the document's own words for it, and calls that are refused there, each shown to
+ * change nothing.
+ */
+final class Edge {
+    /** A house made anew by the same calls each time. */
+    interface House {
+        PortHouse make();
+    }
+
+    interface Act {
+        void on(PortHouse x);
+    }
+
+    interface Asked {
+        long on(PortHouse x);
+    }
+
+    interface Told {
+        boolean on(PortHouse x);
+    }
+
+    private static House lastHouse;
+    private static String lastTold;
+
+    private Edge() {
+    }
+
+    /** The promise (0: a sentence of the terms alone) and the words of the document. */
+    static void of(int promise, String words) {
+        Check.topic((promise > 0 ? "promise " + promise : "terms") + ", \"" + words + "\"");
+    }
+
+    /** The call throws, and changes nothing. */
+    static void thrown(Class<? extends RuntimeException> want, House house, Act call) {
+        PortHouse x = house.make();
+        Check.thrown(want, () -> call.on(x));
+        still(house, x, y -> Check.thrown(want, () -> call.on(y)));
+    }
+
+    /** The call answers false, and changes nothing. */
+    static void refused(House house, Told call) {
+        answered(0, house, x -> call.on(x) ? 1 : 0);
+    }
+
+    /** The call gives this answer, and changes nothing. */
+    static void answered(long want, House house, Asked call) {
+        PortHouse x = house.make();
+        Check.due(want, call.on(x));
+        still(house, x, y -> Check.due(want, call.on(y)));
+    }
+
+    private static void still(House house, PortHouse called, Act call) {
+        PortHouse other = house.make();
+        call.on(other);
+        same(told(house), Still.told(called) + Still.next(other));
+    }
+
+    // Many calls in turn are refused by one kind of house: what it tells without them is asked once.
+    private static String told(House house) {
+        if (house != lastHouse) {
+            lastHouse = house;
+            lastTold = Still.told(house.make()) + Still.next(house.make());
+        }
+        return lastTold;
+    }
+
+    private static void same(String want, String got) {
+        String[] due = want.split("\n");
+        String[] is = got.split("\n");
+        for (int i = 0; i < Math.min(due.length, is.length); i++) {
+            if (!due[i].equals(is[i])) {
+                Check.due("still " + due[i], "then " + is[i]);
+                return;
+            }
+        }
+        Check.due(due.length, is.length);
+    }
+}
