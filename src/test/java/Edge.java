@@ -20,6 +20,7 @@ final class Edge {
         boolean on(PortHouse x);
     }
 
+    private static String sentence = "";
     private static House lastHouse;
     private static String lastTold;
 
@@ -28,7 +29,13 @@ final class Edge {
 
     /** The promise (0: a sentence of the terms alone) and the words of the document. */
     static void of(int promise, String words) {
-        Check.topic((promise > 0 ? "promise " + promise : "terms") + ", \"" + words + "\"");
+        sentence = (promise > 0 ? "promise " + promise : "terms") + ", \"" + words + "\"";
+        Check.topic(sentence);
+    }
+
+    /** Which of many cases of that sentence is looked at. */
+    static void at(String which) {
+        Check.topic(sentence + " at \"" + which + "\"");
     }
 
     /** The call throws, and changes nothing. */
@@ -48,6 +55,11 @@ final class Edge {
         PortHouse x = house.make();
         Check.due(want, call.on(x));
         still(house, x, y -> Check.due(want, call.on(y)));
+    }
+
+    /** Two ways that leave the same. */
+    static void alike(House one, House other) {
+        same(Still.told(one.make()) + Still.next(one.make()), Still.told(other.make()) + Still.next(other.make()));
     }
 
     private static void still(House house, PortHouse called, Act call) {
