@@ -217,7 +217,7 @@ final class Still {
     }
 
     private void tellDeclarations() {
-        for (int declaration = 0; declaration < Math.min(4, x.count(35)); declaration++) {
+        for (int declaration = 0; declaration < Math.min(6, x.count(35)); declaration++) {
             int d = declaration;
             for (int what = 0; what <= 22; what++) {
                 int w = what;
