@@ -262,7 +262,7 @@ public final class BaysEdgesTest {
             Edge.thrown(Check.STATE, four, x -> plain(x, 0, s, 1));
         }
         Check.due(4, plain(four.make(), 1, 0, 1));
-        Edge.of(0, "In a bay lie 4 at most");
+        Edge.term(2, "In a bay lie 4 at most");
         PortHouse x = four.make();
         x.work(0);
         Check.due(4, plain(x, 0, 0, 1));
@@ -299,7 +299,7 @@ public final class BaysEdgesTest {
     }
 
     private static void boxAbove() {
-        Edge.of(0, "at first lie in a stack of a bay, those told later above");
+        Edge.term(2, "at first lie in a stack of a bay, those told later above");
         PortHouse x = new PortHouse(1, 4, 2, 2, 100);
         for (int box = 0; box < 4; box++) {
             plain(x, 0, 2, 1);
@@ -445,7 +445,7 @@ public final class BaysEdgesTest {
     }
 
     private static void planNothingToDo() {
-        Edge.of(0, "(0 moves if nothing is to be done)");
+        Edge.term(4, "(0 moves if nothing is to be done)");
         PortHouse x = new PortHouse(2, 3, 4, 3, 100);
         Check.due(-1, x.count(100));
         Check.due(0, x.plan(0));
@@ -461,7 +461,7 @@ public final class BaysEdgesTest {
     }
 
     private static void planFirstOfShortest() {
-        Edge.of(0, "of such the first: move by move, the less from ahead, then the less to");
+        Edge.term(4, "of such the first: move by move, the less from ahead, then the less to");
         PortHouse x = new PortHouse(1, 3, 4, 3, 100);
         plain(x, 0, 1, 0);
         plain(x, 0, 2, 0);
@@ -471,7 +471,7 @@ public final class BaysEdgesTest {
         plain(y, 0, 2, 0);
         plain(y, 0, 2, 4);
         Check.due("1:2>0 0:2>3", told(y, 0));
-        Edge.of(0, "another stack that has room");
+        Edge.term(4, "another stack that has room");
         PortHouse z = new PortHouse(1, 1, 4, 4, 100);
         plain(z, 0, 0, 1);
         plain(z, 0, 1, 1);
@@ -486,7 +486,7 @@ public final class BaysEdgesTest {
     }
 
     private static void planOfNeeds() {
-        Edge.of(0, "ASHORE (3) if it leaves HERE and all that are to go ahead of it are ASHORE");
+        Edge.term(4, "ASHORE (3) if it leaves HERE and all that are to go ahead of it are ASHORE");
         PortHouse x = new PortHouse(1, 3, 4, 3, 100);
         plain(x, 0, 0, 0);
         plain(x, 0, 1, 0);
@@ -494,7 +494,7 @@ public final class BaysEdgesTest {
         x.before(2, 1);
         x.before(1, 0);
         Check.due("2:2>3 1:1>3 0:0>3", told(x, 0));
-        Edge.of(0, "all that are to go ahead of it are ASHORE: a need that is through holds no box");
+        Edge.term(4, "all that are to go ahead of it are ASHORE: a need that is through holds no box");
         x.work(0);
         Check.due("1:1>3 0:0>3", told(x, 0));
         x.work(0);
@@ -502,7 +502,7 @@ public final class BaysEdgesTest {
     }
 
     private static void planVoid() {
-        Edge.of(0, "is void when a box or a need of that bay is told, or a box of it swapped");
+        Edge.term(4, "is void when a box or a need of that bay is told, or a box of it swapped");
         PortHouse box = mixed();
         plain(box, 1, 0, 0);
         Check.due(-1, box.count(101));
@@ -524,7 +524,7 @@ public final class BaysEdgesTest {
     }
 
     private static void planNotVoid() {
-        Edge.of(0, "What throws or is refused changes nothing: a plan stays");
+        Edge.term(4, "What throws or is refused changes nothing: a plan stays");
         PortHouse x = mixed();
         Check.due(4, x.count(100));
         Check.thrown(Check.STATE, () -> plain(x, 0, 0, 0));
@@ -536,7 +536,7 @@ public final class BaysEdgesTest {
     }
 
     private static void planAnew() {
-        Edge.of(0, "made by the boxes as they lie, also anew when one was worked in part");
+        Edge.term(4, "made by the boxes as they lie, also anew when one was worked in part");
         PortHouse x = mixed();
         Check.due("1:1>3 3:0>1 0:0>3 2:2>3", told(x, 0));
         PortHouse y = mixed();
@@ -587,7 +587,7 @@ public final class BaysEdgesTest {
             return x;
         };
         Edge.answered(-1, noRow, x -> x.work(0));
-        Edge.of(0, "if there is none, the move is not done");
+        Edge.term(6, "if there is none, the move is not done");
         PortHouse x = noRow.make();
         Check.due(-1, x.work(0));
         Check.due(1, x.count(100));
@@ -637,7 +637,7 @@ public final class BaysEdgesTest {
         for (int none : new int[] {-1, 2, FAR_BELOW, FAR_ABOVE}) {
             Edge.thrown(Check.ARGUMENT, MIXED, x -> x.least(none));
         }
-        Edge.of(0, "one for each box of the bay that leaves HERE and is not ASHORE, and one for each other box that"
+        Edge.term(7, "one for each box of the bay that leaves HERE and is not ASHORE, and one for each other box that"
                 + " lies above such a one in its stack");
         PortHouse x = new PortHouse(2, 4, 4, 4, 100);
         Check.due(0, x.least(0));
@@ -657,7 +657,7 @@ public final class BaysEdgesTest {
     // ---- promise 8
 
     private static void swapAnswers() {
-        Edge.of(0, "each lies where the other one lay");
+        Edge.term(8, "each lies where the other one lay");
         PortHouse x = new PortHouse(2, 4, 4, 4, 100);
         plain(x, 0, 0, 2);
         plain(x, 0, 0, 2);
@@ -709,7 +709,7 @@ public final class BaysEdgesTest {
             Edge.answered(0, needs, x -> x.swap(b, 4));
         }
         Check.due(1, needs.make().swap(2, 4));
-        Edge.of(0, "(also such as are through, the other box being ASHORE)");
+        Edge.term(8, "(also such as are through, the other box being ASHORE)");
         Edge.House through = () -> {
             PortHouse x = new PortHouse(1, 3, 4, 3, 100);
             plain(x, 0, 0, 0);
@@ -726,7 +726,7 @@ public final class BaysEdgesTest {
     }
 
     private static void swapFromBayToBay() {
-        Edge.of(0, "in stacks of bays (or of one)");
+        Edge.term(8, "in stacks of bays (or of one)");
         PortHouse x = mixed();
         Check.due(1, x.swap(0, 4));
         Check.due(1, x.aboard(0, 1));

@@ -20,8 +20,8 @@ public final class CountEdgesTest {
         for (int what = 41; what < 100; what++) {
             Check.due(-1, x.count(what));
         }
-        for (int what : new int[] {FAR_BELOW, -624, -600, -500, -200, -100, -99, -41, -40, -1, 700, 716, 816, 1000, 1100,
-            20000, FAR_ABOVE}) {
+        for (int what : new int[] {FAR_BELOW, -624, -600, -500, -200, -100, -99, -41, -40, -1, 700, 716, 816, 1000,
+            1100, 20000, FAR_ABOVE}) {
             Check.due(-1, x.count(what));
         }
     }
@@ -52,8 +52,8 @@ public final class CountEdgesTest {
     }
 
     private static void rows() {
-        Edge.of(87, "200 + r: boxes of row r, 300 + r: its weight, 400 + r: its GROUND, 500 + r: the ship for which it is"
-                + " RESERVED .. NONE for another .. row");
+        Edge.of(87, "200 + r: boxes of row r, 300 + r: its weight, 400 + r: its GROUND, 500 + r: the ship for which it"
+                + " is RESERVED .. NONE for another .. row");
         for (int rows : new int[] {1, 2, 19, 20}) {
             PortHouse x = new PortHouse(1, 4, rows, 8, 400);
             for (int of = 200; of <= 500; of += 100) {
@@ -119,8 +119,8 @@ public final class CountEdgesTest {
     }
 
     private static void latest() {
-        Edge.of(87, "30: the closed day, 31: the KNOWN day of the latest posted batch (NONE without), 32: WHAT WAS WRONG"
-                + " (0 without), 33: the account that was NAMED (NONE without)");
+        Edge.of(87, "30: the closed day, 31: the KNOWN day of the latest posted batch (NONE without), 32: WHAT WAS"
+                + " WRONG (0 without), 33: the account that was NAMED (NONE without)");
         PortHouse x = new PortHouse(1, 1, 1, 1, 1);
         int[] first = {-1, -1, 0, -1};
         for (int i = 0; i < 4; i++) {

@@ -371,7 +371,7 @@ public final class DeclarationsEdgesTest {
     }
 
     private static void dutyUnits() {
-        Edge.of(0, "It can't be RECKONED if a unit of a RATE that counts has no amount");
+        Edge.term(80, "It can't be RECKONED if a unit of a RATE that counts has no amount");
         for (String rate : new String[] {"1/C", "free + 1/C", "min(free, 1/C)", "5% - 1/C"}) {
             Edge.House house = () -> {
                 PortHouse x = Customs.house(4, rate);
@@ -387,7 +387,7 @@ public final class DeclarationsEdgesTest {
             x.amount(0, 2, -1);
             Check.thrown(Check.UNSUPPORTED, () -> x.duty(0, 0));
         }
-        Edge.of(0, "a unit of a RATE that counts: not of one that does not");
+        Edge.term(80, "a unit of a RATE that counts: not of one that does not");
         PortHouse x = Customs.house(1, "1/C");
         int d = Customs.declared(x, 0, 0, 5, 100);
         Check.due(0, x.duty(d, 0));
@@ -399,7 +399,7 @@ public final class DeclarationsEdgesTest {
     }
 
     private static void dutyMost() {
-        Edge.of(0, "or if it were above 1000000000");
+        Edge.term(80, "or if it were above 1000000000");
         PortHouse x = Customs.house(4, "1000%");
         int d = Customs.declared(x, 0, 0, 0, MOST);
         Check.due(MOST_DUTY, x.duty(d, 0));
@@ -416,7 +416,7 @@ public final class DeclarationsEdgesTest {
     }
 
     private static void dutyHalfUp() {
-        Edge.of(0, "counts in whole cents, its RATE'S VALUE to the nearest (half up)");
+        Edge.term(80, "counts in whole cents, its RATE'S VALUE to the nearest (half up)");
         long[][] amountAndCents = {{0, 0}, {499999, 0}, {500000, 1}, {500001, 1}, {1499999, 1}, {1500000, 2},
             {1000000, 1}};
         for (long[] a : amountAndCents) {
@@ -425,7 +425,7 @@ public final class DeclarationsEdgesTest {
             x.amount(d, 0, a[0]);
             Check.due(a[1], x.duty(d, 0));
         }
-        Edge.of(0, "each row .. counts in whole cents: two halves are two cents");
+        Edge.term(80, "each row .. counts in whole cents: two halves are two cents");
         PortHouse x = Customs.house(4, "0.001/A");
         Customs.measure(x, 4, "0.001/A");
         int d = Customs.declared(x, 0, 0, 0, 0);
@@ -451,12 +451,12 @@ public final class DeclarationsEdgesTest {
 
     private static void dutyKinds() {
         long others = 100 * (4 + 8 + 16 + 32 + 64 + 128);
-        Edge.of(0, "of KIND 0 .. on all, if it has no ask; of other KINDS on all");
+        Edge.term(80, "of KIND 0 .. on all, if it has no ask; of other KINDS on all");
         Check.due(100 + others, kinds(0).duty(0, 0));
-        Edge.of(0, "of KIND 0 on the REST, if its ask HAS less than its AMOUNT: all, as long as it was not treated");
+        Edge.term(80, "of KIND 0 on the REST, if its ask HAS less than its AMOUNT: all, as long as it was not treated");
         PortHouse x = kinds(100);
         Check.due(100 + others, x.duty(0, 0));
-        Edge.of(0, "of KIND 1 on the QUOTA PART, if its ask HAS something");
+        Edge.term(80, "of KIND 1 on the QUOTA PART, if its ask HAS something");
         x.run(0, 5);
         Check.due(200 + others, x.duty(0, 0));
         x.again(0, 101);
@@ -464,14 +464,14 @@ public final class DeclarationsEdgesTest {
         Check.due(198 + 1 + others, x.duty(0, 0));
         x.again(0, 200);
         Check.due(100 + 50 + others, x.duty(0, 0));
-        Edge.of(0, "an AMOUNT of 0 has neither");
+        Edge.term(80, "an AMOUNT of 0 has neither");
         x.cancel(0);
         Check.due(others, x.duty(0, 0));
     }
 
     private static void dutyParts() {
-        Edge.of(0, "QUOTA PART: the price and each amount times what its ask HAS, by its AMOUNT, rounded down; the REST"
-                + " is what is wanting to each");
+        Edge.term(80, "QUOTA PART: the price and each amount times what its ask HAS, by its AMOUNT, rounded down; the"
+                + " REST is what is wanting to each");
         PortHouse x = Customs.house(0, "1/A + 1000%");
         Customs.measure(x, 1, "10000/A + 100%");
         x.order(1, 5, 10);
@@ -482,7 +482,7 @@ public final class DeclarationsEdgesTest {
         Check.due(1, x.declared(d, 13));
         // The part: a price of 0 (2 / 3) and 666 thousandths; the rest: 2 and 1334.
         Check.due(6660 + (1 + 20), x.duty(d, 0));
-        Edge.of(0, "(a unit without an amount has none in either)");
+        Edge.term(80, "(a unit without an amount has none in either)");
         x.amount(d, 0, -1);
         Check.thrown(Check.UNSUPPORTED, () -> x.duty(d, 0));
         x.amount(d, 0, 0);
@@ -490,7 +490,7 @@ public final class DeclarationsEdgesTest {
     }
 
     private static void dutyPapersAndKnown() {
-        Edge.of(0, "DUTY of a declaration, as known on a day: each row that APPLIES (with the papers that are there"
+        Edge.term(80, "DUTY of a declaration, as known on a day: each row that APPLIES (with the papers that are there"
                 + " now)");
         PortHouse x = Customs.house(4, "100%");
         x.row(12, ALL, 15, 15, 5, 0, 7);
@@ -597,7 +597,7 @@ public final class DeclarationsEdgesTest {
     }
 
     private static void assessNothing() {
-        Edge.of(0, "its DUTY is RECKONED and, if it is not 0, reserved");
+        Edge.term(81, "its DUTY is RECKONED and, if it is not 0, reserved");
         PortHouse x = Customs.house(4, "100%");
         x.fails(0, true);
         int d = Customs.declared(x, 0, 0, 0, 0);
@@ -674,8 +674,8 @@ public final class DeclarationsEdgesTest {
     }
 
     private static void payBooks() {
-        Edge.of(0, "a batch of its day, known on a day that is told, with the entries: the holder's account less DUTY,"
-                + " DUTIES DUTY; posted; its reservation ends PAID");
+        Edge.term(82, "a batch of its day, known on a day that is told, with the entries: the holder's account less"
+                + " DUTY, DUTIES DUTY; posted; its reservation ends PAID");
         PortHouse x = states();
         int batch = x.pay(1, 33);
         long[][] due = {{batch, 2, -100, 15, 33}, {batch, 8, 100, 15, 33}};
@@ -727,8 +727,8 @@ public final class DeclarationsEdgesTest {
     }
 
     private static void claimEntries() {
-        Edge.of(0, "SECURITIES less what AMOUNTS got less, the holder's account less the rest of DUTY, DUTIES DUTY (none"
-                + " of 0)");
+        Edge.term(83, "SECURITIES less what AMOUNTS got less, the holder's account less the rest of DUTY, DUTIES DUTY"
+                + " (none of 0)");
         long[][] dutyAndTaken = {{50, 50}, {100, 100}, {101, 100}, {200, 100}};
         for (long[] a : dutyAndTaken) {
             PortHouse x = Customs.house(4, "100%");
@@ -828,8 +828,8 @@ public final class DeclarationsEdgesTest {
     }
 
     private static void correctBooks() {
-        Edge.of(0, "what it differs by (below 0 if it is less) is a batch (as if PAID, known on that day) of its own, and"
-                + " it has that DUTY");
+        Edge.term(84, "what it differs by (below 0 if it is less) is a batch (as if PAID, known on that day) of its"
+                + " own, and it has that DUTY");
         for (int d = 2; d <= 3; d++) {
             PortHouse x = dearer();
             int entries = x.count(29);
@@ -904,7 +904,7 @@ public final class DeclarationsEdgesTest {
     }
 
     private static void cancelled() {
-        Edge.of(0, "its reservation, if it has one, is RELEASED; its ask has the AMOUNT 0 (and is treated as others"
+        Edge.term(85, "its reservation, if it has one, is RELEASED; its ask has the AMOUNT 0 (and is treated as others"
                 + " are); its DUTY and the reservation's number are told still");
         PortHouse x = states();
         Check.due(1, x.cancel(1));
@@ -927,7 +927,7 @@ public final class DeclarationsEdgesTest {
     }
 
     private static void goodsAreFree() {
-        Edge.of(0, "Goods are FREE from SECURED on, until they are CANCELLED");
+        Edge.term(81, "Goods are FREE from SECURED on, until they are CANCELLED");
         PortHouse x = Customs.house(4, "100%");
         x.guarantee(0, 1000, 1, 1, false, 0);
         int[] ends = {1, 2, 3};

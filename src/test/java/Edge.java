@@ -27,9 +27,19 @@ final class Edge {
     private Edge() {
     }
 
-    /** The promise (0: a sentence of the terms alone) and the words of the document. */
+    /** A promise and its words. */
     static void of(int promise, String words) {
-        sentence = (promise > 0 ? "promise " + promise : "terms") + ", \"" + words + "\"";
+        looksAt("promise " + promise, words);
+    }
+
+    /** A sentence of the terms, and the promise whose call shows it. */
+    static void term(int promise, String words) {
+        looksAt("terms of promise " + promise, words);
+    }
+
+    // What stands behind a colon or between dots may be the test's own remark on the words.
+    private static void looksAt(String where, String words) {
+        sentence = where + ", \"" + words + "\"";
         Check.topic(sentence);
     }
 

@@ -176,7 +176,7 @@ public final class GateEdgesTest {
     }
 
     private static void barAgain() {
-        Edge.of(0, "Of one source and kind a box has one at most: told again it has the latest RIGHT, and one COUNT"
+        Edge.term(21, "Of one source and kind a box has one at most: told again it has the latest RIGHT, and one COUNT"
                 + " more");
         PortHouse x = port();
         for (int n = 1; n <= 5; n++) {
@@ -234,7 +234,7 @@ public final class GateEdgesTest {
     }
 
     private static void liftLatestRight() {
-        Edge.of(0, "it is lifted as often as it was told (COUNT), by who has its RIGHT then");
+        Edge.term(22, "it is lifted as often as it was told (COUNT), by who has its RIGHT then");
         PortHouse x = port();
         x.bar(0, 0, 0, 1);
         x.bar(0, 0, 0, 2);
@@ -338,7 +338,7 @@ public final class GateEdgesTest {
     }
 
     private static void ruleToldLast() {
-        Edge.of(0, "A RULE of a source (the one told last; none: nothing is barred)");
+        Edge.term(24, "A RULE of a source (the one told last; none: nothing is barred)");
         PortHouse x = freed();
         Check.due(1, x.release(1));
         x.rule(0, 4, 0);
@@ -354,7 +354,7 @@ public final class GateEdgesTest {
     }
 
     private static void ruleOneLimit() {
-        Edge.of(0, "1 KILOGRAMS above a limit bar");
+        Edge.term(24, "1 KILOGRAMS above a limit bar");
         for (int limit : new int[] {0, 2999, 3000, 3001, 40000}) {
             PortHouse x = freed();
             x.rule(2, 1, limit);
@@ -370,7 +370,7 @@ public final class GateEdgesTest {
     }
 
     private static void ruleTwoOdd() {
-        Edge.of(0, "2 a box with an odd number is barred");
+        Edge.term(24, "2 a box with an odd number is barred");
         PortHouse x = port();
         x.rule(3, 2, 0);
         for (int box = 0; box < 4; box++) {
@@ -380,7 +380,7 @@ public final class GateEdgesTest {
     }
 
     private static void ruleThreeGoods() {
-        Edge.of(0, "3 fails for boxes with goods");
+        Edge.term(24, "3 fails for boxes with goods");
         PortHouse x = freed();
         x.rule(1, 3, 0);
         Check.due(214, x.bars(1, 0));
@@ -393,7 +393,7 @@ public final class GateEdgesTest {
     }
 
     private static void ruleFourAlways() {
-        Edge.of(0, "4 fails always");
+        Edge.term(24, "4 fails always");
         PortHouse x = freed();
         x.rule(3, 4, 0);
         Check.due(414, x.bars(0, 1));
@@ -401,7 +401,7 @@ public final class GateEdgesTest {
         Check.due(0, x.release(0));
         Check.due(0, x.release(1));
         Check.due(2, x.count(14));
-        Edge.of(0, "0 never bars");
+        Edge.term(24, "0 never bars");
         x.rule(3, 0, 0);
         Check.due(-1, x.bars(1, 0));
         Check.due(1, x.release(1));
@@ -419,7 +419,7 @@ public final class GateEdgesTest {
     }
 
     private static void releaseNothingBars() {
-        Edge.of(0, "RELEASE is 1 just if nothing bars");
+        Edge.term(25, "RELEASE is 1 just if nothing bars");
         Edge.answered(1, FREED, x -> x.release(1));
         PortHouse x = freed();
         x.bar(3, 1, 9, 0);
@@ -434,7 +434,7 @@ public final class GateEdgesTest {
     }
 
     private static void releaseOwnBars() {
-        Edge.of(0, "A box without goods has the OWN BAR 10, one with goods that are not FREE the OWN BAR 11");
+        Edge.term(25, "A box without goods has the OWN BAR 10, one with goods that are not FREE the OWN BAR 11");
         PortHouse x = port();
         Check.due(10, x.bars(1, 0));
         Check.due(0, x.release(1));
@@ -455,7 +455,7 @@ public final class GateEdgesTest {
     }
 
     private static void releaseGroup() {
-        Edge.of(0, "what bars one of a group bars all of it");
+        Edge.term(25, "what bars one of a group bars all of it");
         PortHouse x = freed();
         Quay.freed(x, 0);
         x.join(0, 1);
@@ -473,7 +473,7 @@ public final class GateEdgesTest {
     }
 
     private static void releaseFailures() {
-        Edge.of(0, "RULES are asked by each RELEASE, of all boxes of the group");
+        Edge.term(25, "RULES are asked by each RELEASE, of all boxes of the group");
         PortHouse x = freed();
         x.join(0, 1);
         x.join(1, 3);
@@ -488,7 +488,7 @@ public final class GateEdgesTest {
         Check.due(0, x.release(2));
         Check.due(4, x.count(11));
         Check.due(1, x.count(14));
-        Edge.of(0, "when BARS are told they are asked as well, but failures are not counted");
+        Edge.term(26, "when BARS are told they are asked as well, but failures are not counted");
         for (int i = 0; x.bars(0, i) != -1; i++) {
             Check.due(4, x.count(11));
         }
@@ -598,10 +598,10 @@ public final class GateEdgesTest {
         for (int none : NO_BOX) {
             Edge.thrown(Check.ARGUMENT, FREED, x -> x.withdraw(none));
         }
-        Edge.of(0, "2 if nothing was released (no NOTICE)");
+        Edge.term(28, "2 if nothing was released (no NOTICE)");
         Edge.answered(2, FREED, x -> x.withdraw(1));
         Edge.answered(2, AWAY, x -> x.withdraw(1));
-        Edge.of(0, "WITHDRAWN is all that is RELEASED of a box (0 then): told as 1");
+        Edge.term(28, "WITHDRAWN is all that is RELEASED of a box (0 then): told as 1");
         PortHouse x = freed();
         x.part(1, 1);
         int notices = x.count(9);
@@ -610,13 +610,13 @@ public final class GateEdgesTest {
         Check.due(notices + 1, x.count(9));
         Check.due(2, x.withdraw(1));
         Check.due(notices + 1, x.count(9));
-        Edge.of(0, "(also of one that is AWAY)");
+        Edge.term(28, "(also of one that is AWAY)");
         x.part(1, 3000);
         x.away(1, BOND, true);
         Check.due(1, x.withdraw(1));
         Check.due(0, x.look(1, 1));
         Check.due(2, x.withdraw(1));
-        Edge.of(0, "0 if it is BEHIND already (a NOTICE all the same, RELEASED stays)");
+        Edge.term(28, "0 if it is BEHIND already (a NOTICE all the same, RELEASED stays)");
         PortHouse y = behind();
         int told = y.count(9);
         Check.due(0, y.withdraw(1));
@@ -729,7 +729,7 @@ public final class GateEdgesTest {
         Edge.refused(PORT, x -> x.away(0, BOND, false));
         Edge.refused(PORT, x -> x.away(2, BOND, false));
         Edge.refused(BEHIND, x -> x.away(1, BOND, false));
-        Edge.of(0, "AWAY: under bond, with the right 15, whatever bars it");
+        Edge.term(30, "AWAY: under bond, with the right 15, whatever bars it");
         PortHouse x = port();
         x.bar(0, 1, 0, 0);
         x.rule(0, 4, 0);
@@ -759,7 +759,7 @@ public final class GateEdgesTest {
     }
 
     private static void noticeSixtyFour() {
-        Edge.of(0, "the latest 64 are kept");
+        Edge.term(31, "the latest 64 are kept");
         for (int n = 62; n <= 130; n++) {
             PortHouse x = port();
             for (int i = 0; i < n; i++) {
@@ -781,7 +781,7 @@ public final class GateEdgesTest {
     }
 
     private static void noticeKinds() {
-        Edge.of(0, "10 * box and 0 a bar begins, 1 ends, 2 part, 3 gate, 4 withdrawn, 5 withdrawn behind");
+        Edge.term(31, "10 * box and 0 a bar begins, 1 ends, 2 part, 3 gate, 4 withdrawn, 5 withdrawn behind");
         PortHouse x = freed();
         x.bar(0, 1, 0, 0);
         x.bar(0, 1, 0, 0);
@@ -800,7 +800,7 @@ public final class GateEdgesTest {
     }
 
     private static void noticeOfRefused() {
-        Edge.of(0, "NOTICES: of each bar that begins (first COUNT) or ends (last lifted): none of what is refused");
+        Edge.term(31, "NOTICES: of each bar that begins (first COUNT) or ends (last lifted): none of what is refused");
         PortHouse x = freed();
         x.lift(0, 1, 0, 65535);
         x.part(0, 1);

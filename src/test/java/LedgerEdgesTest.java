@@ -218,7 +218,7 @@ public final class LedgerEdgesTest {
     }
 
     private static void postNoEntries() {
-        Edge.of(0, "1 no entries");
+        Edge.term(66, "1 no entries");
         voids(1, -1, books(), 3);
         PortHouse x = books();
         x.entry(3, 0, 1);
@@ -227,7 +227,7 @@ public final class LedgerEdgesTest {
     }
 
     private static void postNoSum() {
-        Edge.of(0, "2 cents don't sum to 0");
+        Edge.term(66, "2 cents don't sum to 0");
         PortHouse one = books();
         one.entry(2, 7, 1);
         voids(2, 1, one, 2);
@@ -249,7 +249,7 @@ public final class LedgerEdgesTest {
     }
 
     private static void postClosed() {
-        Edge.of(0, "3 the day is closed: its KNOWN day must be behind the CLOSED one (at first none is: NONE)");
+        Edge.term(66, "3 the day is closed: its KNOWN day must be behind the CLOSED one (at first none is: NONE)");
         PortHouse none = house();
         Check.due(-1, none.count(30));
         posted(none, 0, 0, 0, 1, 1, -1);
@@ -269,7 +269,7 @@ public final class LedgerEdgesTest {
     }
 
     private static void postAhead() {
-        Edge.of(0, "4 it is ahead of what was posted: not ahead of that of the latest batch that was posted");
+        Edge.term(66, "4 it is ahead of what was posted: not ahead of that of the latest batch that was posted");
         PortHouse same = books();
         posted(same, 0, 50, 0, 1, 1, -1);
         Check.due(50, same.count(31));
@@ -283,7 +283,7 @@ public final class LedgerEdgesTest {
 
     // More calls than the document allows for: what it says of 4000 holds all the same.
     private static void postNoRoom() {
-        Edge.of(0, "5 no room: all of its entries must have room in the ledger (4000 at most)");
+        Edge.term(66, "5 no room: all of its entries must have room in the ledger (4000 at most)");
         PortHouse x = house();
         for (int n = 0; n < 199; n++) {
             Check.due(1, x.post(sized(x, 20)));
@@ -310,7 +310,7 @@ public final class LedgerEdgesTest {
     }
 
     private static void postLeast() {
-        Edge.of(0, "5 no room: the least");
+        Edge.term(66, "5 no room: the least");
         PortHouse one = house();
         one.close(5);
         voids(1, -1, one, one.batch(0, 0));
@@ -321,13 +321,13 @@ public final class LedgerEdgesTest {
         voids(3, -1, two, begun(two, 0, 5, 6, 1, 7, -1));
         voids(4, -1, two, begun(two, 0, 6, 6, 1, 7, -1));
         posted(two, 0, 9, 6, 1, 7, -1);
-        Edge.of(0, "WHAT WAS WRONG with the latest batch that became VOID");
+        Edge.term(66, "WHAT WAS WRONG with the latest batch that became VOID");
         Check.due(4, two.count(32));
     }
 
     private static void postNamed() {
-        Edge.of(0, "an account is NAMED: that with the greatest sum of cents in the batch, sign left out, of such the"
-                + " least one; else none");
+        Edge.term(66, "an account is NAMED: that with the greatest sum of cents in the batch, sign left out, of such"
+                + " the least one; else none");
         Check.due(-1, house().count(33));
         long[][] entriesAndNamed = {{11, 5, 11}, {3, 5, 4, -6, 4}, {3, 6, 4, -6, 5, 1, 3}, {4, -6, 3, 6, 5, 1, 3},
             {3, 4, 4, 6, 3, 4, 3}, {3, 4, 4, 6, 3, 2, 3}, {3, 9, 4, 6, 3, -4, 4}, {0, 1, 11, -2, 11}};
@@ -343,7 +343,7 @@ public final class LedgerEdgesTest {
     }
 
     private static void postVoid() {
-        Edge.of(0, "If it can't be posted it is VOID: nothing of it is left, but what was WRONG (below)");
+        Edge.term(66, "If it can't be posted it is VOID: nothing of it is left, but what was WRONG (below)");
         PortHouse x = books();
         x.close(60);
         voids(3, -1, x, 2);
@@ -357,7 +357,7 @@ public final class LedgerEdgesTest {
 
     private static void postFails() {
         Edge.of(66, "UnsupportedOperationException if it FAILED");
-        Edge.of(0, "these go out again, and the batch is OPEN as before, told to fail no more");
+        Edge.term(66, "these go out again, and the batch is OPEN as before, told to fail no more");
         PortHouse x = books();
         x.failing(2, true);
         Check.thrown(Check.UNSUPPORTED, () -> x.post(2));
@@ -371,7 +371,7 @@ public final class LedgerEdgesTest {
         Check.due(1, x.post(2));
         Check.due(4, x.count(29));
         Check.due(1, x.count(34));
-        Edge.of(0, "then posting it, if it can be posted, stops: one that can't be is VOID");
+        Edge.term(66, "then posting it, if it can be posted, stops: one that can't be is VOID");
         PortHouse y = books();
         y.failing(3, true);
         voids(1, -1, y, 3);
@@ -430,7 +430,7 @@ public final class LedgerEdgesTest {
         };
         Edge.thrown(Check.STATE, closed, x -> x.reverse(0, 55));
         Check.due(4, closed.make().reverse(0, 56));
-        Edge.of(0, "(by POST alone): a reversal that can't be leaves what was WRONG");
+        Edge.term(67, "(by POST alone): a reversal that can't be leaves what was WRONG");
         PortHouse x = closed.make();
         Check.due(2, x.count(32));
         Check.due(4, x.count(33));
@@ -441,8 +441,8 @@ public final class LedgerEdgesTest {
     }
 
     private static void reverseTurns() {
-        Edge.of(0, "a batch with its entries turned in sign, of the same VALID day, KNOWN on a day that is told, posted"
-                + " at once");
+        Edge.term(67, "a batch with its entries turned in sign, of the same VALID day, KNOWN on a day that is told,"
+                + " posted at once");
         PortHouse x = house();
         posted(x, 5, 10, 0, MOST, 1, -MOST);
         Check.due(1, x.reverse(0, 12));
@@ -505,7 +505,7 @@ public final class LedgerEdgesTest {
     }
 
     private static void accountDays() {
-        Edge.of(0, "its entries with a VALID day not behind the one, and a KNOWN day not behind the other");
+        Edge.term(69, "its entries with a VALID day not behind the one, and a KNOWN day not behind the other");
         PortHouse x = books();
         long[][] dayKnownSum = {{39, 100000, 0}, {40, 49, 0}, {40, 50, -700}, {41, 51, -700}, {100000, 100000, -700},
             {0, 0, 0}, {40, 0, 0}, {0, 50, 0}};
@@ -540,7 +540,7 @@ public final class LedgerEdgesTest {
     }
 
     private static void statementDays() {
-        Edge.of(0, "a MONTH m has days 30 * m to 30 * m + 29");
+        Edge.term(70, "a MONTH m has days 30 * m to 30 * m + 29");
         int[][] dayAndMonth = {{0, 0}, {29, 0}, {30, 1}, {59, 1}, {60, 2}, {99989, 3332}, {99990, 3333},
             {100000, 3333}};
         for (int[] a : dayAndMonth) {
@@ -625,8 +625,8 @@ public final class LedgerEdgesTest {
     }
 
     private static void passedSum() {
-        Edge.of(0, "the sum S of the balances of all accounts of that kind (for any valid day) if it is above 0, else"
-                + " 0");
+        Edge.term(73, "the sum S of the balances of all accounts of that kind (for any valid day) if it is above 0,"
+                + " else 0");
         PortHouse x = house();
         posted(x, 100000, 0, 0, 5, 7, -4, 8, 1, 9, 2, 10, -3, 11, -1);
         long[] sums = {1, 1, 2, 0};
@@ -641,7 +641,7 @@ public final class LedgerEdgesTest {
     }
 
     private static void passedCost() {
-        Edge.of(0, "COST is S * thousandths / 1000, rounded down");
+        Edge.term(73, "COST is S * thousandths / 1000, rounded down");
         long[][] thousandthsAndCost = {{0, 0}, {1, 0}, {2, 1}, {3, 2}, {999, 998}, {1000, 999}};
         for (long[] a : thousandthsAndCost) {
             PortHouse x = house();
@@ -655,7 +655,7 @@ public final class LedgerEdgesTest {
     }
 
     private static void passedLeft() {
-        Edge.of(0, "the cents that are left go one each to receivers with the greatest remainders, of equal ones the"
+        Edge.term(73, "the cents that are left go one each to receivers with the greatest remainders, of equal ones the"
                 + " least");
         long[][] sumPartsGiven = {{4, 1, 1, 1, 1, 1, 1, 1, 1}, {5, 1, 1, 1, 1, 2, 1, 1, 1}, {7, 1, 1, 1, 1, 2, 2, 2, 1},
             {10, 1, 1, 1, 0, 4, 3, 3, 0}, {10, 0, 1, 1, 1, 0, 4, 3, 3}, {5, 1, 2, 3, 4, 1, 1, 1, 2},
@@ -674,7 +674,7 @@ public final class LedgerEdgesTest {
     }
 
     private static void passedNoParts() {
-        Edge.of(0, "(none, if all parts are 0: then nothing is passed on)");
+        Edge.term(73, "(none, if all parts are 0: then nothing is passed on)");
         PortHouse x = house();
         posted(x, 0, 0, 8, 1000, 0, -1000);
         x.cost(1, 100);
@@ -682,7 +682,7 @@ public final class LedgerEdgesTest {
             Check.due(0, x.passed(1, i, 0));
         }
         Check.due(100, x.passed(1, 4, 0));
-        Edge.of(0, "KEPT: S less all that is passed on to receivers (so the COST is in it)");
+        Edge.term(73, "KEPT: S less all that is passed on to receivers (so the COST is in it)");
         Check.due(1000, x.passed(1, 5, 0));
         x.share(1, 1, 1);
         Check.due(900, x.passed(1, 1, 0));
@@ -726,9 +726,9 @@ public final class LedgerEdgesTest {
     }
 
     private static void batchOfFacts() {
-        Edge.of(75, "what 0: 0 OPEN, 1 posted, 2 VOID; 1: entries (of a VOID one 0), 2: the batch that it reverses, NONE"
-                + " without, 3: that which reversed it, NONE without, 4: 1 if it is told to fail, 5: VALID, 6: KNOWN"
-                + " day");
+        Edge.of(75, "what 0: 0 OPEN, 1 posted, 2 VOID; 1: entries (of a VOID one 0), 2: the batch that it reverses,"
+                + " NONE without, 3: that which reversed it, NONE without, 4: 1 if it is told to fail, 5: VALID, 6:"
+                + " KNOWN day");
         int[][] due = {{1, 2, -1, -1, 0, 40, 50}, {2, 0, -1, -1, 0, 1, 60}, {0, 2, -1, -1, 0, 41, 51},
             {0, 0, -1, -1, 0, 42, 52}};
         PortHouse x = books();

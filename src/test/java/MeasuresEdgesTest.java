@@ -128,7 +128,7 @@ public final class MeasuresEdgesTest {
     }
 
     private static void memberLandsIn() {
-        Edge.of(0, "a land is IN a group if it is a member of it, or in a group that is one");
+        Edge.term(33, "a land is IN a group if it is a member of it, or in a group that is one");
         PortHouse x = house();
         for (int land = 0; land <= 15; land++) {
             x.member(23, land);
@@ -257,7 +257,7 @@ public final class MeasuresEdgesTest {
     }
 
     private static void clashSame() {
-        Edge.of(0, "TWO ROWS CLASH if code, land (or group), kind and rank are the same");
+        Edge.term(34, "TWO ROWS CLASH if code, land (or group), kind and rank are the same");
         Edge.answered(-2, MEASURES, x -> x.row(12, ALL, 10, 20, 4, 3, 10000));
         Check.due(3, measures().row(13, ALL, 10, 20, 4, 3, 5));
         Check.due(3, measures().row(1200, ALL, 10, 20, 4, 3, 5));
@@ -283,12 +283,12 @@ public final class MeasuresEdgesTest {
     }
 
     private static void clashByAllTold() {
-        Edge.of(0, "as they are known by all that was told");
+        Edge.term(34, "as they are known by all that was told");
         PortHouse x = measures();
         Check.due(2, x.end(1, 15, 10000));
         Check.due(-2, x.row(12, ALL, 15, 30, 4, 3, 0));
         Check.due(3, x.row(12, ALL, 16, 30, 4, 3, 0));
-        Edge.of(0, "(that may be ahead of the row's own, and the row may clash by it with others)");
+        Edge.term(37, "(that may be ahead of the row's own, and the row may clash by it with others)");
         Check.due(3, x.end(1, OPEN, 10000));
         Check.due(2, x.apply(123456, 0, 16, 10000));
         Check.due(-2, x.row(12, ALL, 40, 50, 4, 3, 0));
@@ -449,7 +449,8 @@ public final class MeasuresEdgesTest {
     }
 
     private static void endKnownLatest() {
-        Edge.of(0, "of the last days known by then, the one that became known latest (of one day the one told last)");
+        Edge.term(37, "of the last days known by then, the one that became known latest (of one day the one told"
+                + " last)");
         PortHouse x = measures();
         x.end(1, 40, 8);
         x.end(1, 30, 7);
@@ -469,7 +470,7 @@ public final class MeasuresEdgesTest {
     }
 
     private static void endKnownAhead() {
-        Edge.of(0, "is known from a day on, too (that may be ahead of the row's own");
+        Edge.term(37, "is known from a day on, too (that may be ahead of the row's own");
         PortHouse x = measures();
         Check.due(2, x.end(1, 40, 4));
         Check.due("", applying(x, 120000, 0, 15, 4));
@@ -497,7 +498,7 @@ public final class MeasuresEdgesTest {
     }
 
     private static void papersOneOfThem() {
-        Edge.of(0, "PAPERS .. of which one must be there, if there are any");
+        Edge.term(38, "PAPERS .. of which one must be there, if there are any");
         PortHouse x = measures();
         Check.due("1 2", applying(x, 123456, 3, 10, 5));
         x.condition(1, 2);
@@ -536,14 +537,14 @@ public final class MeasuresEdgesTest {
     }
 
     private static void applyKnown() {
-        Edge.of(0, "if it was known by then");
+        Edge.term(39, "if it was known by then");
         Check.due("", applying(measures(), 123456, 3, 10, 4));
         Check.due("1 2", applying(measures(), 123456, 3, 10, 5));
         Check.due("1 2", applying(measures(), 123456, 3, 10, 10000));
     }
 
     private static void applyDays() {
-        Edge.of(0, "the day lies between its first and its last one (both belong to it)");
+        Edge.term(39, "the day lies between its first and its last one (both belong to it)");
         String[] due = {"", "1 2", "1 2", "2", "2"};
         int[] days = {9, 10, 20, 21, 10000};
         for (int i = 0; i < days.length; i++) {
@@ -552,7 +553,7 @@ public final class MeasuresEdgesTest {
     }
 
     private static void applyUnder() {
-        Edge.of(0, "it is UNDER another one if that is its beginning (or the same)");
+        Edge.term(39, "it is UNDER another one if that is its beginning (or the same)");
         PortHouse x = house();
         x.row(12, ALL, 0, OPEN, 4, 0, 0);
         x.row(1234, ALL, 0, OPEN, 4, 0, 0);
@@ -565,7 +566,7 @@ public final class MeasuresEdgesTest {
     }
 
     private static void applyLands() {
-        Edge.of(0, "the land is its land or in its group (as groups are now) and not excluded");
+        Edge.term(39, "the land is its land or in its group (as groups are now) and not excluded");
         PortHouse x = house();
         x.row(12, 3, 0, OPEN, 4, 0, 0);
         x.row(12, 16, 0, OPEN, 4, 0, 0);
@@ -580,7 +581,7 @@ public final class MeasuresEdgesTest {
         x.exclude(1, 3);
         Check.due("", applying(x, 123456, 4, 0, 0));
         Check.due("3", applying(x, 123456, 3, 0, 0));
-        Edge.of(0, "ALL is 31: each land is in it");
+        Edge.term(39, "ALL is 31: each land is in it");
         PortHouse y = house();
         y.row(12, ALL, 0, OPEN, 4, 0, 0);
         for (int land = 0; land <= 15; land++) {
@@ -589,7 +590,7 @@ public final class MeasuresEdgesTest {
     }
 
     private static void applyBeats() {
-        Edge.of(0, "a row beats another one of the same kind if its code is longer, or the codes are as long and its"
+        Edge.term(39, "a row beats another one of the same kind if its code is longer, or the codes are as long and its"
                 + " rank is greater");
         for (int kind = 0; kind <= 7; kind++) {
             PortHouse x = house();
@@ -609,13 +610,13 @@ public final class MeasuresEdgesTest {
     }
 
     private static void applyKindsNotBeaten() {
-        Edge.of(0, "a row beats another one of the same kind");
+        Edge.term(39, "a row beats another one of the same kind");
         PortHouse x = house();
         for (int kind = 0; kind <= 3; kind++) {
             x.row(kind % 2 == 0 ? 12 : 123456, ALL, 0, OPEN, kind, kind, 0);
         }
         Check.due("1 2 3 4", applying(x, 123456, 0, 0, 0));
-        Edge.of(0, "all rows of these whose papers are there; of KINDS 0 .. 3 only those that none of them BEATS");
+        Edge.term(39, "all rows of these whose papers are there; of KINDS 0 .. 3 only those that none of them BEATS");
         PortHouse y = house();
         y.row(12, ALL, 0, OPEN, 0, 0, 0);
         y.row(123456, ALL, 0, OPEN, 0, 0, 0);

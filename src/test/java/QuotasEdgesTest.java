@@ -133,7 +133,7 @@ public final class QuotasEdgesTest {
             Edge.thrown(Check.ARGUMENT, ORDERS, x -> x.run(0, day));
         }
         Check.due(1, orders().run(0, 8));
-        Edge.of(0, "the day up to which they were RUN (at first the one ahead of the span)");
+        Edge.term(48, "the day up to which they were RUN (at first the one ahead of the span)");
         Edge.House fresh = () -> {
             PortHouse x = house();
             x.order(100, 5, 10);
@@ -213,17 +213,17 @@ public final class QuotasEdgesTest {
     }
 
     private static void treatJustEnough() {
-        Edge.of(0, "if their amounts together are not more than the balance, each gets its amount");
+        Edge.term(48, "if their amounts together are not more than the balance, each gets its amount");
         has(treated(11, 3, 7), 1, 3, 7);
         has(treated(10, 3, 7), 0, 3, 7);
-        Edge.of(0, "Else each gets its SHARE of the balance");
+        Edge.term(48, "Else each gets its SHARE of the balance");
         has(treated(9, 3, 7), 0, 3, 6);
         has(treated(1, 1), 0, 1);
         has(treated(MOST, 1000000, 1000000), MOST - 2000000, 1000000, 1000000);
     }
 
     private static void treatShares() {
-        Edge.of(0, "by its amount among all (amount * balance / all, rounded down)");
+        Edge.term(48, "by its amount among all (amount * balance / all, rounded down)");
         has(treated(10, 10, 10), 0, 5, 5);
         has(treated(3, 1, 2, 3), 0, 1, 1, 1);
         has(treated(999999, 1000000, 1000000), 0, 500000, 499999);
@@ -231,8 +231,8 @@ public final class QuotasEdgesTest {
     }
 
     private static void treatLeft() {
-        Edge.of(0, "what is left then goes one by one to those that have less than their amount, by desk, of these in"
-                + " the order in which they were told");
+        Edge.term(48, "what is left then goes one by one to those that have less than their amount, by desk, of these"
+                + " in the order in which they were told");
         PortHouse x = house();
         x.order(7, 5, 10);
         int[] desks = {3, 1, 0, 1, 2};
@@ -251,11 +251,11 @@ public final class QuotasEdgesTest {
     }
 
     private static void treatNothing() {
-        Edge.of(0, "What an ask HAS is what it got; 0 if it was not treated");
+        Edge.term(48, "What an ask HAS is what it got; 0 if it was not treated");
         PortHouse x = orders();
         Customs.facts(x, 0, 12, 60, 60, 6);
         Customs.facts(x, 1, 12, 30, 0, -1);
-        Edge.of(0, "each gets its SHARE of the balance: of none, nothing");
+        Edge.term(48, "each gets its SHARE of the balance: of none, nothing");
         PortHouse y = treated(5, 5);
         Customs.asks(y, 0, 6, 0, 3);
         Check.due(0, y.run(0, 6));
@@ -299,7 +299,7 @@ public final class QuotasEdgesTest {
     }
 
     private static void blockedWait() {
-        Edge.of(0, "all asks of that day, and of days before it, that were not treated yet are treated together");
+        Edge.term(49, "all asks of that day, and of days before it, that were not treated yet are treated together");
         PortHouse x = house();
         x.order(10, 5, 10);
         x.block(0, 5, true);
@@ -318,7 +318,7 @@ public final class QuotasEdgesTest {
     }
 
     private static void blockedLastDay() {
-        Edge.of(0, "(Those of blocked days so wait; behind the span none is treated any more.)");
+        Edge.term(49, "(Those of blocked days so wait; behind the span none is treated any more.)");
         PortHouse x = house();
         x.order(10, 5, 10);
         Customs.asks(x, 0, 10, 0, 4);
@@ -337,8 +337,8 @@ public final class QuotasEdgesTest {
     }
 
     private static void changesFromTheirDayOn() {
-        Edge.of(0, "an ask of a day up to which the order was run, another amount, a blocked day change it from their"
-                + " day on");
+        Edge.term(49, "an ask of a day up to which the order was run, another amount, a blocked day change it from"
+                + " their day on");
         PortHouse x = house();
         x.order(100, 5, 10);
         Customs.asks(x, 0, 6, 0, 50);
@@ -490,7 +490,7 @@ public final class QuotasEdgesTest {
     }
 
     private static void quotaCritical() {
-        Edge.of(0, "CRITICAL is an order whose balance, ten times, is below its volume");
+        Edge.term(52, "CRITICAL is an order whose balance, ten times, is below its volume");
         long[][] volumeAskedCritical = {{100, 89, 0}, {100, 90, 0}, {100, 91, 1}, {100, 100, 1}, {101, 90, 0},
             {101, 91, 1}, {109, 98, 0}, {109, 99, 1}, {1, 1, 1}, {10, 9, 0}, {10, 10, 1}, {9, 8, 0}};
         for (long[] a : volumeAskedCritical) {

@@ -204,7 +204,7 @@ public final class RatesEdgesTest {
     }
 
     private static void rateParts() {
-        Edge.of(0, "RATE: a PART, and behind it any times + or - and a PART");
+        Edge.term(42, "RATE: a PART, and behind it any times + or - and a PART");
         bad(0, "+free");
         bad(5, "free++free");
         bad(5, "free+-free");
@@ -213,7 +213,7 @@ public final class RatesEdgesTest {
         bad(4, "free)");
         bad(4, "free,free");
         bad(2, "5%6%");
-        Edge.of(0, "PART: free; NUMBER %; NUMBER / UNIT; ( RATE ); min ( RATE , RATE ); max ( RATE , RATE )");
+        Edge.term(42, "PART: free; NUMBER %; NUMBER / UNIT; ( RATE ); min ( RATE , RATE ); max ( RATE , RATE )");
         bad(0, ")");
         bad(1, "()");
         bad(1, "5");
@@ -229,7 +229,7 @@ public final class RatesEdgesTest {
     }
 
     private static void rateBlanks() {
-        Edge.of(0, "BLANKS (32) may stand between what is told below, not within numbers and words");
+        Edge.term(42, "BLANKS (32) may stand between what is told below, not within numbers and words");
         good(3, "  5  %  +  2  /  C  ");
         good(5, " min ( ( 5 % ) , max ( 1 / A , free ) ) ");
         good(1, " step ( 10 : 1 = 2 , 3 = 4 ) ");
@@ -244,12 +244,12 @@ public final class RatesEdgesTest {
     }
 
     private static void rateNumbers() {
-        Edge.of(0, "NUMBER: 1 to 5 digits, and perhaps . and 1 to 3 digits");
+        Edge.term(42, "NUMBER: 1 to 5 digits, and perhaps . and 1 to 3 digits");
         good(1, "1%");
         good(1, "12345%");
         good(1, "12345.1%");
         good(1, "12345.123%");
-        Edge.of(0, "the first sign of a .. number that is none or too long, also behind its point");
+        Edge.term(42, "the first sign of a .. number that is none or too long, also behind its point");
         bad(0, "123456%");
         bad(0, "123456.1%");
         bad(0, "000001%");
@@ -258,17 +258,17 @@ public final class RatesEdgesTest {
         bad(0, ".5%");
         bad(6, "free +123456%");
         bad(6, "free +12345.1234%");
-        Edge.of(0, "or whose point is the text's last sign");
+        Edge.term(42, "or whose point is the text's last sign");
         bad(0, "1.");
         bad(5, "free+12345.");
         bad(4, "min(1.");
-        Edge.of(0, "All digits .. one behind the other are one number");
+        Edge.term(42, "All digits .. one behind the other are one number");
         bad(3, "1.5.5%");
         bad(1, "5a%");
     }
 
     private static void rateWholes() {
-        Edge.of(0, "WHOLE: 1 to 6 digits");
+        Edge.term(42, "WHOLE: 1 to 6 digits");
         good(1, "step(1:1=1)");
         good(1, "step(999999:999999=999999)");
         good(1, "step(000000:000000=000000)");
@@ -290,7 +290,7 @@ public final class RatesEdgesTest {
     }
 
     private static void rateWords() {
-        Edge.of(0, "the first sign of a word .. that is none or too long");
+        Edge.term(42, "the first sign of a word .. that is none or too long");
         bad(0, "fre");
         bad(0, "freee");
         bad(0, "frees");
@@ -299,10 +299,10 @@ public final class RatesEdgesTest {
         bad(0, "steps(1:1=1)");
         bad(0, "a");
         bad(3, "5%+abc");
-        Edge.of(0, "All .. small letters, one behind the other are one .. word");
+        Edge.term(42, "All .. small letters, one behind the other are one .. word");
         bad(0, "freemin(1%,2%)");
         bad(4, "free5%");
-        Edge.of(0, "Words have small letters");
+        Edge.term(42, "Words have small letters");
         bad(0, "FREE");
         bad(0, "Free");
         bad(0, "freE");
@@ -310,7 +310,7 @@ public final class RatesEdgesTest {
     }
 
     private static void rateUnits() {
-        Edge.of(0, "UNIT: a letter A to H");
+        Edge.term(42, "UNIT: a letter A to H");
         for (char unit = 'A'; unit <= 'H'; unit++) {
             good(1, "1/" + unit);
         }
@@ -325,7 +325,7 @@ public final class RatesEdgesTest {
     }
 
     private static void rateEndsTooEarly() {
-        Edge.of(0, "the text's length if it ends too early");
+        Edge.term(42, "the text's length if it ends too early");
         String[] whole = {"12.5%", "2/C", "(free)", "5%+6%", "min(1%,2%)", "max(1% , 2/A)", "step(10:1=2,3=4)"};
         for (String text : whole) {
             for (int n = 0; n < text.length(); n++) {
@@ -361,18 +361,18 @@ public final class RatesEdgesTest {
     }
 
     private static void rateStepRows() {
-        Edge.of(0, "ROWS are WHOLE = WHOLE with , between them (1 to 6, the first numbers rise)");
+        Edge.term(42, "ROWS are WHOLE = WHOLE with , between them (1 to 6, the first numbers rise)");
         StringBuilder rows = new StringBuilder("step(1:1=1");
         good(1, rows + ")");
         for (int n = 2; n <= 6; n++) {
             rows.append(",").append(n).append("=1");
             good(1, rows + ")");
         }
-        Edge.of(0, "a row that .. is the seventh, at its first number");
+        Edge.term(42, "a row that .. is the seventh, at its first number");
         bad(31, rows + ",7=1)");
         bad(32, rows + ", 7 = 1)");
         bad(31, rows + ",1=1)");
-        Edge.of(0, "a row that does not rise .. at its first number");
+        Edge.term(42, "a row that does not rise .. at its first number");
         good(1, "step(1:0=9,1=8,999999=7)");
         bad(11, "step(1:5=1,5=1)");
         bad(11, "step(1:5=1,4=1)");
@@ -383,7 +383,7 @@ public final class RatesEdgesTest {
     }
 
     private static void rateStepRowsWrongWithin() {
-        Edge.of(0, "a row that does not rise, or is the seventh .. behind what is wrong within it");
+        Edge.term(42, "a row that does not rise, or is the seventh .. behind what is wrong within it");
         bad(12, "step(1:5=1,4)");
         bad(13, "step(1:5=1,4=)");
         bad(13, "step(1:5=1,4=1234567)");
@@ -404,32 +404,32 @@ public final class RatesEdgesTest {
     }
 
     private static void rateSixtyNodes() {
-        Edge.of(0, "THE TREE has NODES (60 at most)");
+        Edge.term(42, "THE TREE has NODES (60 at most)");
         good(57, chain(29));
         good(59, chain(30));
-        Edge.of(0, "the sign that would be the 61st node's first, nodes counted as the text goes");
+        Edge.term(42, "the sign that would be the 61st node's first, nodes counted as the text goes");
         bad(90, chain(31));
         bad(90, chain(30) + "+free");
         bad(90, chain(30) + "-min(1%,2%)");
         bad(91, chain(30) + "+ step(1:1=1)");
         bad(92, chain(30) + "+ (1%)");
         bad(90, chain(40));
-        Edge.of(0, "SUM and DIFFERENCE at their sign");
+        Edge.term(42, "SUM and DIFFERENCE at their sign");
         bad(93, "min(" + chain(31) + ",1%)");
         bad(93, "max(" + chain(30) + "-1%,1%)");
         bad(95, "min( " + chain(30) + " +1%,1%)");
-        Edge.of(0, "nodes .. : what is wrong ahead of the 61st is told");
+        Edge.term(42, "nodes .. : what is wrong ahead of the 61st is told");
         bad(89, chain(30) + "*1%");
         bad(88, chain(29) + "+1,+1%+1%");
     }
 
     private static void rateTwelveDeep() {
-        Edge.of(0, "nested 12 deep at most: each of (, min, max that is open counts one");
+        Edge.term(42, "nested 12 deep at most: each of (, min, max that is open counts one");
         good(1, "(".repeat(12) + "free" + ")".repeat(12));
         good(25, "min(".repeat(12) + "free" + ",1%)".repeat(12));
         good(25, "max(1%,".repeat(12) + "free" + ")".repeat(12));
         good(13, "(min(1%,".repeat(6) + "free" + "))".repeat(6));
-        Edge.of(0, "or the 13th deep bracket or word");
+        Edge.term(42, "or the 13th deep bracket or word");
         bad(12, "(".repeat(13) + "free" + ")".repeat(13));
         bad(48, "min(".repeat(13) + "free" + ",1%)".repeat(13));
         bad(84, "max(1%,".repeat(13) + "free" + ")".repeat(13));
@@ -437,13 +437,13 @@ public final class RatesEdgesTest {
         bad(12, "(".repeat(12) + "max");
         bad(13, "(".repeat(12) + " (");
         bad(17, "(".repeat(12) + "free+(free)" + ")".repeat(12));
-        Edge.of(0, "that is open: one that is closed counts no more");
+        Edge.term(42, "that is open: one that is closed counts no more");
         good(3, "(".repeat(12) + "free" + ")".repeat(12) + "+" + "(".repeat(12) + "free" + ")".repeat(12));
         good(3, "(".repeat(11) + "(free)+(free)" + ")".repeat(11));
     }
 
     private static void rateStepCountsNone() {
-        Edge.of(0, "step's bracket none");
+        Edge.term(42, "step's bracket none");
         good(1, "(".repeat(12) + "step(1:1=1)" + ")".repeat(12));
         good(3, "(".repeat(11) + "min(step(1:1=1),free)" + ")".repeat(11));
     }
@@ -500,7 +500,7 @@ public final class RatesEdgesTest {
     }
 
     private static void nodeOrder() {
-        Edge.of(0, "each one ahead of those below it, those of the left side ahead of the right side's");
+        Edge.term(43, "each one ahead of those below it, those of the left side ahead of the right side's");
         PortHouse x = emptied();
         Tape.rate(x, 2, "(1% + 2%) - (3% + 4%)");
         int[][] due = {{4, 0, -1, 1, 4}, {3, 0, -1, 2, 3}, {1, 1000}, {1, 2000}, {3, 0, -1, 5, 6}, {1, 3000},
@@ -508,7 +508,7 @@ public final class RatesEdgesTest {
         for (int i = 0; i < due.length; i++) {
             facts(x, i, due[i]);
         }
-        Edge.of(0, "+ and - go from the left: a - b + c is the SUM of the DIFFERENCE and c");
+        Edge.term(43, "+ and - go from the left: a - b + c is the SUM of the DIFFERENCE and c");
         Tape.rate(x, 2, "1% - 2% + 3%");
         int[][] left = {{3, 0, -1, 1, 4}, {4, 0, -1, 2, 3}, {1, 1000}, {1, 2000}, {1, 3000}};
         for (int i = 0; i < left.length; i++) {
@@ -542,7 +542,7 @@ public final class RatesEdgesTest {
     }
 
     private static void printNumbers() {
-        Edge.of(0, "NUMBER with the least digits that tell it (no 0 ahead but one, none behind a .)");
+        Edge.term(44, "NUMBER with the least digits that tell it (no 0 ahead but one, none behind a .)");
         printsAs("0%", "0%");
         printsAs("0%", "00000.000%");
         printsAs("0.001%", "0.001%");
@@ -557,14 +557,14 @@ public final class RatesEdgesTest {
     }
 
     private static void printForms() {
-        Edge.of(0, "a + b, a - b with a blank on both sides, b in ( ) if it is a SUM or DIFFERENCE");
+        Edge.term(44, "a + b, a - b with a blank on both sides, b in ( ) if it is a SUM or DIFFERENCE");
         printsAs("1% + 2% - 3%", "1%+2%-3%");
         printsAs("1% + 2% - 3%", "((1%+2%)-3%)");
         printsAs("1% - (2% + 3%)", "1%-(2%+3%)");
         printsAs("1% + (2% - 3%)", "1%+((2%-3%))");
         printsAs("1% + min(2%, 3% + 4%)", "1%+(min(2%,(3%+4%)))");
         printsAs("free - free", "( free )-(free)");
-        Edge.of(0, "min(a, b), max(a, b); step(e: p=c, p=c)");
+        Edge.term(44, "min(a, b), max(a, b); step(e: p=c, p=c)");
         printsAs("min(max(1%, 2/A), free)", "min(max(1%,2/A),free)");
         printsAs("step(0: 0=0)", "step(000000:000000=000000)");
         printsAs("step(10: 1=2, 30=40, 999999=999999)", "step(10:1=2,30=040,999999=999999)");
@@ -646,16 +646,16 @@ public final class RatesEdgesTest {
     }
 
     private static void worthValues() {
-        Edge.of(0, "SHARE: price * NUMBER / 100, exactly");
+        Edge.term(46, "SHARE: price * NUMBER / 100, exactly");
         worth(0, "5%", 0, 0);
         worth(10, "0.001%", 1, 0);
         worth(1000000, "100%", 1, 0);
         worth(999999990L, "99999.999%", 1, 0);
-        Edge.of(0, "BY UNIT: NUMBER cents for each whole unit: exactly");
+        Edge.term(46, "BY UNIT: NUMBER cents for each whole unit: exactly");
         worth(1, "0.001/A", 0, 1);
         worth(1000000, "1/A", 0, 1000);
         worth(999000, "1/A", 0, 999);
-        Edge.of(0, "SUM, DIFFERENCE, LEAST, GREATEST of both");
+        Edge.term(46, "SUM, DIFFERENCE, LEAST, GREATEST of both");
         worth(3, "0.001/A + 0.002/A", 0, 1);
         worth(1, "0.002/A - 0.001/A", 0, 1);
         worth(1, "min(0.002/A, 0.001/A)", 0, 1);
@@ -665,29 +665,29 @@ public final class RatesEdgesTest {
     }
 
     private static void worthSteps() {
-        Edge.of(0, "q = entry price * 100 / price, rounded down: the cents of the last row whose first number is not"
+        Edge.term(46, "q = entry price * 100 / price, rounded down: the cents of the last row whose first number is not"
                 + " above q");
         String text = "step(1000: 50=7, 100=8, 101=9)";
         long[][] priceAndCents = {{2001, 0}, {2000, 7}, {1001, 7}, {1000, 8}, {991, 8}, {990, 9}, {1, 9}};
         for (long[] a : priceAndCents) {
             worth(a[1] * 1000000, text, a[0], 0);
         }
-        Edge.of(0, "0 without such a row");
+        Edge.term(46, "0 without such a row");
         worth(0, "step(1: 1=5)", 101, 0);
         worth(5000000, "step(1: 1=5)", 100, 0);
         worth(5000000, "step(1: 0=5)", MOST, 0);
-        Edge.of(0, "the last row's if the price is 0");
+        Edge.term(46, "the last row's if the price is 0");
         worth(9000000, text, 0, 0);
         worth(3000000, "step(0: 5=4, 999999=3)", 0, 0);
         worth(0, "step(0: 5=4, 999999=3)", 1, 0);
     }
 
     private static void worthNotBelowZero() {
-        Edge.of(0, "THE RATE'S VALUE is that of node 0, but not below 0");
+        Edge.term(46, "THE RATE'S VALUE is that of node 0, but not below 0");
         worth(0, "1% - 2%", 100, 0);
         worth(0, "2% - 2%", 100, 0);
         worth(10000, "2% - 1%", 1, 0);
-        Edge.of(0, "that of node 0: below it a value may be below 0");
+        Edge.term(46, "that of node 0: below it a value may be below 0");
         worth(10000, "1% - 2% + 2%", 1, 0);
         worth(30000, "2% - (1% - 2%)", 1, 0);
         worth(0, "max(1% - 2%, 1% - 3%)", 1, 0);

@@ -171,7 +171,7 @@ public final class SecuritiesEdgesTest {
     }
 
     private static void firstOrder() {
-        Edge.of(0, "the holder's order: by number at first; one may be told to go FIRST of all");
+        Edge.term(54, "the holder's order: by number at first; one may be told to go FIRST of all");
         PortHouse x = house();
         x.guarantee(5, 1, 1, 1, false, 0);
         x.guarantee(4, 1, 1, 1, false, 0);
@@ -205,7 +205,7 @@ public final class SecuritiesEdgesTest {
     }
 
     private static void shutBarsNewAlone() {
-        Edge.of(0, "later CLOSED: that bars new reservations alone");
+        Edge.term(55, "later CLOSED: that bars new reservations alone");
         PortHouse x = secured();
         x.shut(1);
         facts(x, 1, 0, 1000, 300, 700, 0, 1, 1, 0, 0);
@@ -239,7 +239,7 @@ public final class SecuritiesEdgesTest {
     }
 
     private static void failsNextCovered() {
-        Edge.of(0, "its next reservation .. that is covered is made and undone: nothing is there of it, no number"
+        Edge.term(56, "its next reservation .. that is covered is made and undone: nothing is there of it, no number"
                 + " either, but one FAILURE more of this desk; then it fails no more");
         PortHouse x = secured();
         x.fails(2, true);
@@ -259,7 +259,7 @@ public final class SecuritiesEdgesTest {
     }
 
     private static void failsNotOfNothing() {
-        Edge.of(0, "its next reservation (of more than 0) that is covered");
+        Edge.term(56, "its next reservation (of more than 0) that is covered");
         PortHouse x = secured();
         x.fails(0, true);
         Check.due(0, reserved(x, 0, 0, 0));
@@ -307,7 +307,7 @@ public final class SecuritiesEdgesTest {
     }
 
     private static void interestDays() {
-        Edge.of(0, "for each day behind the one of its beginning up to TODAY");
+        Edge.term(58, "for each day behind the one of its beginning up to TODAY");
         PortHouse x = house();
         x.tick(100);
         x.guarantee(0, MOST, 1, 1, false, 365);
@@ -316,7 +316,7 @@ public final class SecuritiesEdgesTest {
         Check.due(100000, x.interest(1));
         x.tick(102);
         Check.due(200000, x.interest(1));
-        Edge.of(0, "exact for days one behind the other with one AMOUNT, rounded down for each such row of days");
+        Edge.term(58, "exact for days one behind the other with one AMOUNT, rounded down for each such row of days");
         PortHouse y = house();
         y.guarantee(0, 1000, 1, 1, false, 365);
         int[][] dayAndInterest = {{0, 0}, {1, 0}, {9, 0}, {10, 1}, {11, 1}, {19, 1}, {20, 2}, {99999, 9999},
@@ -332,7 +332,7 @@ public final class SecuritiesEdgesTest {
     }
 
     private static void interestClosed() {
-        Edge.of(0, "(or to the one on which it was closed; that day, too)");
+        Edge.term(58, "(or to the one on which it was closed; that day, too)");
         PortHouse x = house();
         x.guarantee(0, MOST, 1, 1, false, 365);
         x.tick(5);
@@ -350,7 +350,7 @@ public final class SecuritiesEdgesTest {
     }
 
     private static void interestRows() {
-        Edge.of(0, "AMOUNT (another one from the day behind its change on)");
+        Edge.term(58, "AMOUNT (another one from the day behind its change on)");
         PortHouse x = secured();
         x.tick(19);
         Check.due(1, x.interest(1));
@@ -361,7 +361,7 @@ public final class SecuritiesEdgesTest {
         Check.due(1, x.interest(1));
         x.tick(34);
         Check.due(2, x.interest(1));
-        Edge.of(0, "rounded down for each such row of days: a claim that takes nothing makes no new row");
+        Edge.term(58, "rounded down for each such row of days: a claim that takes nothing makes no new row");
         PortHouse y = house();
         y.guarantee(0, 1000, 0, 1, false, 365);
         int first = Customs.secured(y, 0, 0, 1000);
@@ -439,7 +439,7 @@ public final class SecuritiesEdgesTest {
     }
 
     private static void securityNeeds() {
-        Edge.of(0, "To COVER x cents it NEEDS x * up / down, rounded up");
+        Edge.term(61, "To COVER x cents it NEEDS x * up / down, rounded up");
         long[][] centsAndNeeds = {{1, 1}, {2, 1}, {3, 1}, {4, 2}, {6, 2}, {7, 3}, {300, 100}};
         for (long[] a : centsAndNeeds) {
             PortHouse x = house();
@@ -447,7 +447,7 @@ public final class SecuritiesEdgesTest {
             Check.due(a[0], reserved(x, 0, 0, a[0]));
             facts(x, 1, 0, 100, a[1], 100 - a[1], (100 - a[1]) * 3);
         }
-        Edge.of(0, "what is NEEDED by its reservations: of each, rounded up");
+        Edge.term(61, "what is NEEDED by its reservations: of each, rounded up");
         PortHouse y = house();
         y.guarantee(0, 100, 1, 3, false, 0);
         reserved(y, 0, 0, 1);
@@ -456,7 +456,7 @@ public final class SecuritiesEdgesTest {
     }
 
     private static void securityMayCover() {
-        Edge.of(0, "it MAY COVER the most x that NEEDS no more than FREE");
+        Edge.term(61, "it MAY COVER the most x that NEEDS no more than FREE");
         long[][] amountUpDownMost = {{1, 1, 1, 1}, {1, 1, 100, 100}, {10, 3, 7, 23}, {10, 99, 100, 10}, {1, 99, 100, 1},
             {MOST, 100, 100, MOST}, {MOST, 1, 2, 2 * MOST}};
         for (long[] a : amountUpDownMost) {
@@ -469,7 +469,7 @@ public final class SecuritiesEdgesTest {
                 Check.due(true, x.security(1, 2) <= a[0]);
             }
         }
-        Edge.of(0, "0 if it is CLOSED");
+        Edge.term(61, "0 if it is CLOSED");
         PortHouse x = secured();
         x.shut(1);
         x.shut(2);
@@ -479,7 +479,7 @@ public final class SecuritiesEdgesTest {
     }
 
     private static void securityShareOfNothing() {
-        Edge.of(0, "(a share of 0: any x up to 1000000000)");
+        Edge.term(61, "(a share of 0: any x up to 1000000000)");
         PortHouse x = Customs.house(4, "1000%");
         x.guarantee(0, 1, 0, 100, false, 0);
         Check.due(MOST, x.security(1, 4));
@@ -494,7 +494,7 @@ public final class SecuritiesEdgesTest {
     }
 
     private static void securitySingle() {
-        Edge.of(0, "0 if it is .. SINGLE and has a reservation");
+        Edge.term(61, "0 if it is .. SINGLE and has a reservation");
         PortHouse x = house();
         x.guarantee(0, 500, 1, 1, true, 0);
         int d = Customs.secured(x, 0, 0, 1);
@@ -507,8 +507,8 @@ public final class SecuritiesEdgesTest {
     }
 
     private static void securityRisk() {
-        Edge.of(0, "what other reservations of that guarantee NEED may be above its AMOUNT: FREE is 0 then, and it is at"
-                + " RISK for what is wanting");
+        Edge.term(61, "what other reservations of that guarantee NEED may be above its AMOUNT: FREE is 0 then, and it"
+                + " is at RISK for what is wanting");
         PortHouse x = house();
         x.guarantee(0, 100, 1, 2, false, 0);
         int first = Customs.secured(x, 0, 0, 50);
@@ -558,7 +558,7 @@ public final class SecuritiesEdgesTest {
     }
 
     private static void reservationAllOrNothing() {
-        Edge.of(0, "each covers as much as it may and as is still wanted. All of it, or nothing");
+        Edge.term(62, "each covers as much as it may and as is still wanted. All of it, or nothing");
         PortHouse x = secured();
         Check.due(-1702, reserved(x, 0, 0, 1701));
         facts(x, 1, 0, 1000, 300, 700, 700, 1);
@@ -567,7 +567,7 @@ public final class SecuritiesEdgesTest {
         Check.due(1700, reserved(x, 0, 0, 1700));
         parts(x, 2, 1, 700, 2, 1000);
         Check.due(0, x.free(0));
-        Edge.of(0, "PARTS (a guarantee and what it covers, those with something alone), in that order");
+        Edge.term(62, "PARTS (a guarantee and what it covers, those with something alone), in that order");
         PortHouse y = secured();
         y.first(2);
         Check.due(1000, reserved(y, 0, 0, 1000));
@@ -577,7 +577,7 @@ public final class SecuritiesEdgesTest {
     }
 
     private static void reservationFourParts() {
-        Edge.of(0, "4 at most: what would need more is refused as well");
+        Edge.term(62, "4 at most: what would need more is refused as well");
         Edge.House five = () -> {
             PortHouse x = house();
             for (int n = 0; n < 5; n++) {
@@ -589,7 +589,7 @@ public final class SecuritiesEdgesTest {
         };
         Check.due(40, five.make().assess(0, 0));
         Edge.answered(-52, five, x -> x.assess(1, 0));
-        Edge.of(0, "those with something alone: closed ones are no parts");
+        Edge.term(62, "those with something alone: closed ones are no parts");
         PortHouse x = five.make();
         x.shut(2);
         Check.due(40, x.assess(0, 0));
@@ -597,7 +597,7 @@ public final class SecuritiesEdgesTest {
     }
 
     private static void reservationEnds() {
-        Edge.of(0, "It is LIVE; then it ENDS, once: RELEASED (1), PAID (2): all of its parts go");
+        Edge.term(62, "It is LIVE; then it ENDS, once: RELEASED (1), PAID (2): all of its parts go");
         PortHouse x = secured();
         x.cancel(0);
         ended(x, 1);
@@ -606,7 +606,7 @@ public final class SecuritiesEdgesTest {
         y.pay(0, 0);
         ended(y, 2);
         facts(y, 1, 0, 1000, 0, 1000, 1000, 0, 0, 0, 0);
-        Edge.of(0, "or CLAIMED (3): of each part's guarantee the AMOUNT is less by what the part covers");
+        Edge.term(62, "or CLAIMED (3): of each part's guarantee the AMOUNT is less by what the part covers");
         PortHouse z = secured();
         Check.due(300, z.claim(0, 0));
         ended(z, 3);
@@ -625,8 +625,8 @@ public final class SecuritiesEdgesTest {
     }
 
     private static void claimedButZeroAtLeast() {
-        Edge.of(0, "the AMOUNT is less by what the part covers, but 0 at least; by how much it got less is CLAIMED of"
-                + " it");
+        Edge.term(61, "the AMOUNT is less by what the part covers, but 0 at least; by how much it got less is CLAIMED"
+                + " of it");
         long[][] coversAndTaken = {{99, 99, 1}, {100, 100, 0}, {101, 100, 0}, {200, 100, 0}};
         for (long[] a : coversAndTaken) {
             PortHouse x = house();

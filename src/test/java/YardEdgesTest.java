@@ -82,7 +82,7 @@ public final class YardEdgesTest {
             Check.due(kind, x.count(402));
             Check.due(true, x.ground(2, kind));
         }
-        Edge.of(0, "Each has a GROUND: PLAIN at first");
+        Edge.term(10, "Each has a GROUND: PLAIN at first");
         Check.due(0, x.count(401));
     }
 
@@ -153,9 +153,9 @@ public final class YardEdgesTest {
     }
 
     private static void ruleNine() {
-        Edge.of(0, "9 it is not ASHORE");
+        Edge.term(12, "9 it is not ASHORE");
         Edge.answered(-9, YARD, x -> x.put(3, 1));
-        Edge.of(0, "9 .. or AWAY (C)");
+        Edge.term(12, "9 .. or AWAY (C)");
         Edge.House away = () -> {
             PortHouse x = yard();
             x.away(2, BOND, true);
@@ -165,7 +165,7 @@ public final class YardEdgesTest {
         PortHouse back = away.make();
         back.away(2, BOND, false);
         Check.due(1, back.put(2, 1));
-        Edge.of(0, "9 .. or BEHIND the gate");
+        Edge.term(12, "9 .. or BEHIND the gate");
         Edge.answered(-9, YardEdgesTest::behind, x -> x.put(2, 1));
     }
 
@@ -178,19 +178,19 @@ public final class YardEdgesTest {
     }
 
     private static void ruleOne() {
-        Edge.of(0, "1 it stands in the yard already");
+        Edge.term(12, "1 it stands in the yard already");
         for (int row = 0; row < 3; row++) {
             int r = row;
             Edge.answered(-1, YARD, x -> x.put(0, r));
             Edge.answered(-1, YARD, x -> x.put(1, r));
         }
-        Edge.of(0, "1 .. (for a shift: on that row)");
+        Edge.term(12, "1 .. (for a shift: on that row)");
         Edge.answered(-1, YARD, x -> x.shift(1, 0));
         Check.due(1, yard().shift(1, 1));
     }
 
     private static void ruleTwo() {
-        Edge.of(0, "2 the row is RESERVED for another ship");
+        Edge.term(12, "2 the row is RESERVED for another ship");
         Edge.House reserved = () -> {
             PortHouse x = yard();
             x.reserve(1, 1);
@@ -204,7 +204,7 @@ public final class YardEdgesTest {
     }
 
     private static void ruleThree() {
-        Edge.of(0, "3 it is full");
+        Edge.term(12, "3 it is full");
         for (int high = 1; high <= 8; high++) {
             int most = high;
             Edge.House nearly = () -> {
@@ -226,7 +226,7 @@ public final class YardEdgesTest {
     }
 
     private static void ruleFour() {
-        Edge.of(0, "4 its boxes and this one weigh more than the ground bears");
+        Edge.term(12, "4 its boxes and this one weigh more than the ground bears");
         Edge.House house = () -> {
             PortHouse x = new PortHouse(1, 4, 2, 4, 40);
             Quay.on(x, 1, 20, 5, 1);
@@ -237,7 +237,7 @@ public final class YardEdgesTest {
         };
         Check.due(1, house.make().put(2, 1));
         Edge.answered(-4, house, x -> x.put(3, 1));
-        Edge.of(0, "4 .. of an empty row this one alone");
+        Edge.term(12, "4 .. of an empty row this one alone");
         Edge.House one = () -> {
             PortHouse x = new PortHouse(1, 4, 1, 4, 10);
             Quay.loose(x, 0, 10, 5, 1);
@@ -251,7 +251,7 @@ public final class YardEdgesTest {
     }
 
     private static void ruleFive() {
-        Edge.of(0, "5 a box there has another size");
+        Edge.term(12, "5 a box there has another size");
         for (int size = 1; size <= 3; size++) {
             for (int other = 1; other <= 3; other++) {
                 int below = size - 1;
@@ -272,7 +272,7 @@ public final class YardEdgesTest {
     }
 
     private static void ruleSix() {
-        Edge.of(0, "6 it weighs more than the one below it");
+        Edge.term(12, "6 it weighs more than the one below it");
         Edge.House house = () -> {
             PortHouse x = new PortHouse(1, 4, 2, 4, 400);
             Quay.on(x, 1, 20, 5, 1);
@@ -295,7 +295,7 @@ public final class YardEdgesTest {
     }
 
     private static void ruleSeven() {
-        Edge.of(0, "7 it is cooled and the ground has no PLUG");
+        Edge.term(12, "7 it is cooled and the ground has no PLUG");
         Check.due(1, onGround(1, 1).put(0, 1));
         Edge.answered(-7, () -> onGround(1, 0), x -> x.put(0, 1));
         Edge.answered(-7, () -> onGround(1, 2), x -> x.put(0, 1));
@@ -303,11 +303,11 @@ public final class YardEdgesTest {
     }
 
     private static void ruleEight() {
-        Edge.of(0, "8 it is dangerous and the ground is not for that");
+        Edge.term(12, "8 it is dangerous and the ground is not for that");
         Check.due(1, onGround(2, 2).put(0, 1));
         Edge.answered(-8, () -> onGround(2, 0), x -> x.put(0, 1));
         Edge.answered(-8, () -> onGround(2, 1), x -> x.put(0, 1));
-        Edge.of(0, "8 .. or the other way about");
+        Edge.term(12, "8 .. or the other way about");
         Edge.answered(-8, () -> onGround(0, 2), x -> x.put(0, 1));
         Check.due(1, onGround(0, 0).put(0, 1));
     }
@@ -447,7 +447,7 @@ public final class YardEdgesTest {
     }
 
     private static void scoreEmptyAndSooner() {
-        Edge.of(0, "20 if the row is empty; else 40 less 15 for each box there that leaves sooner than it");
+        Edge.term(15, "20 if the row is empty; else 40 less 15 for each box there that leaves sooner than it");
         for (int sooner = 0; sooner <= 2; sooner++) {
             PortHouse x = new PortHouse(1, 4, 2, 4, 400);
             for (int i = 0; i < sooner; i++) {
@@ -460,14 +460,14 @@ public final class YardEdgesTest {
     }
 
     private static void scoreShip() {
-        Edge.of(0, "12 more if the top one is of its ship");
+        Edge.term(15, "12 more if the top one is of its ship");
         PortHouse x = new PortHouse(1, 4, 2, 4, 400);
         Quay.on(x, 0, 20, 5, 2);
         Quay.on(x, 1, 20, 5, 2);
         Quay.on(x, 1, 20, 5, 1);
         Check.due(1, x.choose(Quay.loose(x, 0, 20, 5, 1)));
         Check.due(0, x.choose(Quay.loose(x, 0, 20, 5, 2)));
-        Edge.of(0, "12 more if the top one .. : not by one below it");
+        Edge.term(15, "12 more if the top one .. : not by one below it");
         PortHouse y = new PortHouse(1, 4, 2, 4, 400);
         Quay.on(y, 0, 20, 5, 3);
         Quay.on(y, 1, 20, 5, 1);
@@ -476,12 +476,12 @@ public final class YardEdgesTest {
     }
 
     private static void scoreLighter() {
-        Edge.of(0, "less 3 for each unit of weight by which it is lighter than the top one");
+        Edge.term(15, "less 3 for each unit of weight by which it is lighter than the top one");
         PortHouse x = new PortHouse(1, 4, 2, 4, 400);
         Quay.on(x, 1, 20, 5, 2);
         Check.due(1, x.choose(Quay.loose(x, 0, 14, 5, 1)));
         Check.due(0, x.choose(Quay.loose(x, 0, 13, 5, 1)));
-        Edge.of(0, "(these 24 at most)");
+        Edge.term(15, "(these 24 at most)");
         PortHouse y = new PortHouse(1, 4, 2, 4, 400);
         Quay.on(y, 1, 40, 5, 1);
         Check.due(1, y.choose(Quay.loose(y, 0, 32, 5, 1)));
@@ -490,7 +490,7 @@ public final class YardEdgesTest {
     }
 
     private static void scoreReserved() {
-        Edge.of(0, "and 30 more if the row is RESERVED");
+        Edge.term(15, "and 30 more if the row is RESERVED");
         PortHouse x = new PortHouse(1, 4, 2, 4, 400);
         Quay.on(x, 0, 20, 5, 2);
         Quay.on(x, 1, 20, 4, 1);
@@ -504,7 +504,7 @@ public final class YardEdgesTest {
     }
 
     private static void scoreTie() {
-        Edge.of(0, "THE BEST row: with the greatest score, of such the least");
+        Edge.term(15, "THE BEST row: with the greatest score, of such the least");
         PortHouse x = new PortHouse(1, 4, 20, 4, 400);
         Check.due(0, x.choose(loose(x, 0, 20)));
         for (int row = 0; row < 19; row++) {
@@ -544,7 +544,7 @@ public final class YardEdgesTest {
     }
 
     private static void nightSoMany() {
-        Edge.of(0, "It ends when there is none, or so many moves are made");
+        Edge.term(16, "It ends when there is none, or so many moves are made");
         for (int moves = 0; moves <= 4; moves++) {
             PortHouse x = threeInTheWay();
             int before = x.count(5);
@@ -556,7 +556,7 @@ public final class YardEdgesTest {
     }
 
     private static void nightMost() {
-        Edge.of(0, "the one with the most boxes below it that leave sooner, of such the least row's");
+        Edge.term(16, "the one with the most boxes below it that leave sooner, of such the least row's");
         PortHouse x = new PortHouse(1, 4, 5, 4, 400);
         Quay.on(x, 0, 20, 5, 1);
         int one = Quay.on(x, 0, 20, 9, 1);
@@ -578,7 +578,7 @@ public final class YardEdgesTest {
     }
 
     private static void nightOwnRow() {
-        Edge.of(0, "those alone for which there is a row, not their own, on which they may stand and are not in the"
+        Edge.term(16, "those alone for which there is a row, not their own, on which they may stand and are not in the"
                 + " way");
         Edge.answered(0, () -> {
             PortHouse x = new PortHouse(1, 4, 1, 4, 400);
@@ -600,7 +600,7 @@ public final class YardEdgesTest {
             Quay.on(x, 1, 19, 9, 1);
             return x;
         }, x -> x.night(50));
-        Edge.of(0, "of all boxes on top of their row");
+        Edge.term(16, "of all boxes on top of their row");
         Edge.answered(0, () -> {
             PortHouse x = new PortHouse(1, 4, 2, 4, 400);
             Quay.on(x, 0, 20, 5, 1);
@@ -611,7 +611,7 @@ public final class YardEdgesTest {
     }
 
     private static void nightSameDay() {
-        Edge.of(0, "are not in the way: upon one that leaves the same day");
+        Edge.term(16, "are not in the way: upon one that leaves the same day");
         PortHouse x = new PortHouse(1, 4, 2, 4, 400);
         Quay.on(x, 0, 20, 5, 1);
         int way = Quay.on(x, 0, 20, 9, 1);
@@ -645,7 +645,7 @@ public final class YardEdgesTest {
     }
 
     private static void undoHundred() {
-        Edge.of(0, "(the latest 100 are kept)");
+        Edge.term(17, "(the latest 100 are kept)");
         for (int moves = 98; moves <= 102; moves++) {
             PortHouse x = shifted(moves);
             int kept = Math.min(moves, 100);
@@ -662,7 +662,7 @@ public final class YardEdgesTest {
     }
 
     private static void undoOnceMore() {
-        Edge.of(0, "UNDONE is the latest of them that was not undone");
+        Edge.term(17, "UNDONE is the latest of them that was not undone");
         PortHouse x = shifted(103);
         Check.due(0, x.undo());
         Check.due(0, x.undo());
@@ -682,7 +682,7 @@ public final class YardEdgesTest {
     }
 
     private static void undoAway() {
-        Edge.of(0, "not if its box is .. AWAY now (it is the latest still)");
+        Edge.term(17, "not if its box is .. AWAY now (it is the latest still)");
         Edge.House away = () -> {
             PortHouse x = yard();
             x.take(1);
@@ -698,7 +698,7 @@ public final class YardEdgesTest {
         Check.due(1, x.undo());
         Check.due(0, x.where(1, 0));
         Check.due(1, x.where(1, 1));
-        Edge.of(0, "not if its box is .. AWAY now: that of another move holds nothing");
+        Edge.term(17, "not if its box is .. AWAY now: that of another move holds nothing");
         PortHouse y = yard();
         y.away(2, BOND, true);
         Check.due(1, y.take(1));
@@ -707,7 +707,7 @@ public final class YardEdgesTest {
     }
 
     private static void undoBehind() {
-        Edge.of(0, "not if its box is BEHIND the gate");
+        Edge.term(17, "not if its box is BEHIND the gate");
         Edge.answered(-1, YardEdgesTest::behind, x -> x.undo());
         PortHouse x = behind();
         Check.due(1, x.take(1));
@@ -716,7 +716,7 @@ public final class YardEdgesTest {
     }
 
     private static void undoWhatever() {
-        Edge.of(0, "(whatever the row's GROUND is by now, and whom it is RESERVED for)");
+        Edge.term(17, "(whatever the row's GROUND is by now, and whom it is RESERVED for)");
         PortHouse x = new PortHouse(1, 4, 2, 2, 40);
         Quay.on(x, 1, 20, 5, 1);
         x.take(0);
@@ -726,13 +726,13 @@ public final class YardEdgesTest {
         Check.due(0, x.at(1, 0));
         Check.due(2, x.count(401));
         Check.due(5, x.count(501));
-        Edge.of(0, "it is as it was ahead of it .. and counts as a move no more");
+        Edge.term(17, "it is as it was ahead of it .. and counts as a move no more");
         Check.due(3, x.count(5));
         Check.due(3, x.count(6));
     }
 
     private static void undoPutByWork() {
-        Edge.of(0, "(A box whose putting is UNDONE is ASHORE in no row.)");
+        Edge.term(17, "(A box whose putting is UNDONE is ASHORE in no row.)");
         PortHouse x = new PortHouse(1, 4, 2, 2, 40);
         Quay.standing(x, 0, 20, 5, 1);
         Check.due(0, x.undo());
@@ -764,7 +764,7 @@ public final class YardEdgesTest {
                 Check.due(due[box][what], x.where(box, what));
             }
         }
-        Edge.of(0, "told together: 3 * KIND + SIZE - 1");
+        Edge.term(18, "told together: 3 * KIND + SIZE - 1");
         PortHouse y = new PortHouse(3, 1, 1, 1, 1);
         for (int sort = 0; sort <= 8; sort++) {
             int box = y.box(sort / 3, sort % 3, 1, sort, 1, 0, 1);
@@ -774,7 +774,7 @@ public final class YardEdgesTest {
     }
 
     private static void inTheWay() {
-        Edge.of(0, "A box is IN THE WAY if one below it leaves sooner");
+        Edge.term(18, "A box is IN THE WAY if one below it leaves sooner");
         PortHouse x = new PortHouse(1, 4, 2, 4, 400);
         Quay.on(x, 1, 20, 5, 1);
         Check.due(0, x.where(0, 3));
@@ -785,7 +785,7 @@ public final class YardEdgesTest {
         Quay.on(x, 1, 20, 4, 1);
         Check.due(0, x.where(3, 3));
         Check.due(1, x.count(7));
-        Edge.of(0, "IN THE WAY if one below it .. : not only the next one");
+        Edge.term(18, "IN THE WAY if one below it .. : not only the next one");
         PortHouse y = new PortHouse(1, 4, 2, 4, 400);
         Quay.on(y, 1, 20, 1, 1);
         Quay.on(y, 1, 20, 9, 1);
