@@ -652,6 +652,12 @@ public final class BaysEdgesTest {
         Check.due(0, x.least(1));
         workAll(x, 0);
         Check.due(0, x.least(0));
+        PortHouse y = new PortHouse(1, 4, 4, 4, 100);
+        plain(y, 0, 0, 0);
+        plain(y, 0, 0, 3);
+        plain(y, 0, 0, 3);
+        plain(y, 0, 1, 3);
+        Check.due(3, y.least(0));
     }
 
     // ---- promise 8

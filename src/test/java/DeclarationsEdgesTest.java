@@ -505,7 +505,7 @@ public final class DeclarationsEdgesTest {
             x.papers(2);
             Check.due(100, x.duty(d, 7));
         }
-        Edge.of(80, "the list of apply() is as it was");
+        Edge.of(40, "of the latest list of apply(): a DUTY that is RECKONED makes none");
         Check.due(0, x.count(16));
     }
 
@@ -706,6 +706,9 @@ public final class DeclarationsEdgesTest {
             return x;
         };
         Edge.thrown(Check.ARGUMENT, nothing, x -> x.claim(5, 30));
+        PortHouse one = states();
+        one.assess(Customs.declared(one, 2, 1, 15, 1), 0);
+        Check.due(1, one.claim(5, 30));
         Edge.of(83, "or day (of the ledger)");
         for (int none : NO_BOOK_DAY) {
             Edge.thrown(Check.ARGUMENT, STATES, x -> x.claim(1, none));
@@ -907,9 +910,13 @@ public final class DeclarationsEdgesTest {
         Edge.term(85, "its reservation, if it has one, is RELEASED; its ask has the AMOUNT 0 (and is treated as others"
                 + " are); its DUTY and the reservation's number are told still");
         PortHouse x = states();
+        Check.due(1, x.count(22));
+        Check.due(1, x.cancel(0));
+        Check.due(1, x.count(22));
         Check.due(1, x.cancel(1));
         Customs.facts(x, 1, 7, 4, 100, 1, -1);
         Check.due(1, x.reservation(1, 2));
+        Check.due(0, x.count(22));
         PortHouse y = asked();
         Customs.facts(y, 5, 13, 400, 16);
         Check.due(1, y.cancel(0));

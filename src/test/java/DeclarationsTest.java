@@ -650,6 +650,18 @@ public final class DeclarationsTest {
         Check.due(100, w.x.claim(j, 0));
         Check.due(0, w.x.claim(k, 0));
         Check.due(4000, w.x.count(29));
+        Check.topic("promise 83, no room for a claim that gets nothing where one entry has room");
+        DeclarationsTest y = new DeclarationsTest();
+        y.measure(0, "100%");
+        y.x.guarantee(3, 100, 1, 10, false, 0);
+        int m = y.declared(3, 600);
+        int n = y.declared(3, 400);
+        y.x.assess(m, 0);
+        y.x.assess(n, 0);
+        fill(y.x, 3996);
+        Check.due(100, y.x.claim(m, 0));
+        Check.due(3999, y.x.count(29));
+        Check.thrown(Check.STATE, () -> y.x.claim(n, 0));
         lastRoomInTheLedger();
     }
 

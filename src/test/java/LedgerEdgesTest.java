@@ -329,7 +329,7 @@ public final class LedgerEdgesTest {
         Edge.term(66, "an account is NAMED: that with the greatest sum of cents in the batch, sign left out, of such"
                 + " the least one; else none");
         Check.due(-1, house().count(33));
-        long[][] entriesAndNamed = {{11, 5, 11}, {3, 5, 4, -6, 4}, {3, 6, 4, -6, 5, 1, 3}, {4, -6, 3, 6, 5, 1, 3},
+        long[][] entriesAndNamed = {{11, 5, 11}, {0, 5, 0}, {3, 5, 4, -6, 4}, {3, 6, 4, -6, 5, 1, 3}, {4, -6, 3, 6, 5, 1, 3},
             {3, 4, 4, 6, 3, 4, 3}, {3, 4, 4, 6, 3, 2, 3}, {3, 9, 4, 6, 3, -4, 4}, {0, 1, 11, -2, 11}};
         for (long[] a : entriesAndNamed) {
             PortHouse x = house();
@@ -339,7 +339,16 @@ public final class LedgerEdgesTest {
             }
             voids(2, (int) a[a.length - 1], x, batch);
             voids(1, -1, x, x.batch(0, 0));
+            voids(2, 6, x, begun(x, 0, 0, 6, 1));
         }
+        Edge.term(66, "the greatest sum of cents in the batch: not in the one behind it");
+        PortHouse full = house();
+        full.batch(0, 0);
+        for (int n = 0; n < 20; n++) {
+            full.entry(0, 1, 1);
+        }
+        begun(full, 0, 0, 5, MOST);
+        voids(2, 1, full, 0);
     }
 
     private static void postVoid() {
@@ -638,6 +647,8 @@ public final class LedgerEdgesTest {
         posted(x, 0, 0, 10, 4, 8, -4);
         Check.due(1, x.passed(3, 6, 0));
         Check.due(0, x.passed(1, 6, 0));
+        posted(x, 0, 0, 11, 7, 0, -7);
+        Check.due(8, x.passed(3, 6, 0));
     }
 
     private static void passedCost() {

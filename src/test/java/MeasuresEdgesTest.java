@@ -563,6 +563,29 @@ public final class MeasuresEdgesTest {
         for (int i = 0; i < codes.length; i++) {
             Check.due(due[i], applying(x, codes[i], 0, 0, 0));
         }
+        int[][] codeLeastMost = {{10, 100000, 109999}, {99, 990000, 999999}, {1000, 100000, 100099},
+            {9999, 999900, 999999}, {100000, 100000, 100000}, {999999, 999999, 999999}};
+        for (int[] c : codeLeastMost) {
+            PortHouse y = house();
+            y.row(c[0], ALL, 0, OPEN, 4, 0, 0);
+            Check.due("1", applying(y, c[1], 0, 0, 0));
+            Check.due("1", applying(y, c[2], 0, 0, 0));
+            if (c[1] > 100000) {
+                Check.due("", applying(y, c[1] - 1, 0, 0, 0));
+            }
+            if (c[2] < 999999) {
+                Check.due("", applying(y, c[2] + 1, 0, 0, 0));
+            }
+        }
+        Edge.term(39, "if its code is longer: the least and the greatest codes");
+        for (int[] c : new int[][] {{10, 1000, 100000}, {99, 9999, 999999}}) {
+            PortHouse y = house();
+            y.row(c[0], ALL, 0, OPEN, 0, 9, 0);
+            y.row(c[1], ALL, 0, OPEN, 0, 5, 0);
+            Check.due("2", applying(y, c[2], 0, 0, 0));
+            y.row(c[2], ALL, 0, OPEN, 0, 0, 0);
+            Check.due("3", applying(y, c[2], 0, 0, 0));
+        }
     }
 
     private static void applyLands() {

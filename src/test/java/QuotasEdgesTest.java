@@ -167,6 +167,16 @@ public final class QuotasEdgesTest {
         Customs.facts(x, 2, 13, 0, 1);
         Customs.facts(x, gone, 12, 0, 0, 0);
         Check.due(0, x.run(0, 2));
+        Edge.of(48, "and got something: one is enough");
+        PortHouse one = house();
+        one.order(1, 0, 10);
+        one.order(1, 0, 10);
+        Customs.asks(one, 0, 0, 1, 1);
+        Customs.asks(one, 0, 0, 0, 3);
+        Customs.asks(one, 0, 0, 0, 3);
+        Check.due(1, one.run(0, 0));
+        Check.due(1, one.run(1, 0));
+        Customs.facts(one, 0, 11, 1, 1, 1, 0);
         Edge.of(48, "on days that were not run before: an ask of a day that was");
         PortHouse y = house();
         y.order(10, 0, 10);
@@ -334,6 +344,10 @@ public final class QuotasEdgesTest {
         Customs.facts(x, 1, 13, 3, 10);
         Check.due(3, x.balance(0, 10));
         Check.due(10, x.balance(0, 9));
+        Check.due(true, x.block(0, 10, true));
+        Customs.facts(x, 0, 13, 0, -1);
+        Customs.facts(x, 1, 13, 0, -1);
+        Check.due(10, x.balance(0, 10));
     }
 
     private static void changesFromTheirDayOn() {

@@ -293,6 +293,8 @@ public final class RatesEdgesTest {
         Edge.term(42, "the first sign of a word .. that is none or too long");
         bad(0, "fre");
         bad(0, "freee");
+        bad(0, "freez");
+        bad(0, "afree");
         bad(0, "frees");
         bad(0, "mi(1%,2%)");
         bad(0, "minn(1%,2%)");
@@ -489,6 +491,14 @@ public final class RatesEdgesTest {
         facts(x, 7, 0, 0, -1, -1, -1, 0);
         facts(x, 8, 7, 999999, -1, -1, -1, 2);
         Check.thrown(Check.INDEX, () -> x.node(2, 9, 0));
+        Edge.of(43, "1: its NUMBER in thousandths");
+        String[] numbers = {"1.5%", "1.05%", "1.005%", "1.55%", "0.5/A", "10.25/A", "99999.9%"};
+        int[] thousandths = {1500, 1050, 1005, 1550, 500, 10250, 99999900};
+        for (int i = 0; i < numbers.length; i++) {
+            Tape.rate(x, 2, numbers[i]);
+            Check.due(thousandths[i], x.node(2, 0, 1));
+        }
+        Edge.of(43, "5: rows of STEPS (0 else)");
         for (int rows = 1; rows <= 6; rows++) {
             StringBuilder s = new StringBuilder("step(0:0=0");
             for (int i = 1; i < rows; i++) {
@@ -496,6 +506,8 @@ public final class RatesEdgesTest {
             }
             Tape.rate(x, 2, s + ")");
             facts(x, 0, 7, 0, -1, -1, -1, rows);
+            Tape.rate(x, 2, "free");
+            facts(x, 0, 0, 0, -1, -1, -1, 0);
         }
     }
 
@@ -672,6 +684,8 @@ public final class RatesEdgesTest {
         for (long[] a : priceAndCents) {
             worth(a[1] * 1000000, text, a[0], 0);
         }
+        worth(53000000, "step(1000: 50=7, 100=8) + step(500: 1=40, 50=45)", 1000, 0);
+        worth(47000000, "step(1000: 50=7, 100=8) + step(500: 1=40, 50=45)", 1001, 0);
         Edge.term(46, "0 without such a row");
         worth(0, "step(1: 1=5)", 101, 0);
         worth(5000000, "step(1: 1=5)", 100, 0);

@@ -347,6 +347,17 @@ public final class SecuritiesEdgesTest {
         y.shut(1);
         y.tick(50);
         Check.due(0, y.interest(1));
+        Edge.term(58, "to the one on which it was closed: another AMOUNT behind it changes nothing");
+        PortHouse z = house();
+        z.guarantee(0, MOST, 1, 1, false, 365);
+        int d = Customs.secured(z, 0, 0, 1000);
+        z.tick(5);
+        z.shut(1);
+        z.tick(9);
+        Check.due(1000, z.claim(d, 0));
+        Check.due(500000, z.interest(1));
+        z.tick(20);
+        Check.due(500000, z.interest(1));
     }
 
     private static void interestRows() {
@@ -361,6 +372,14 @@ public final class SecuritiesEdgesTest {
         Check.due(1, x.interest(1));
         x.tick(34);
         Check.due(2, x.interest(1));
+        PortHouse one = house();
+        one.guarantee(0, MOST, 1, 1, false, 1);
+        int cent = Customs.secured(one, 0, 0, 1);
+        one.tick(1);
+        Check.due(273, one.interest(1));
+        Check.due(1, one.claim(cent, 0));
+        one.tick(2);
+        Check.due(273 + 273, one.interest(1));
         Edge.term(58, "rounded down for each such row of days: a claim that takes nothing makes no new row");
         PortHouse y = house();
         y.guarantee(0, 1000, 0, 1, false, 365);
@@ -611,6 +630,21 @@ public final class SecuritiesEdgesTest {
         Check.due(300, z.claim(0, 0));
         ended(z, 3);
         facts(z, 1, 0, 700, 0, 700, 700, 0, 0, 0, 300);
+        Edge.term(62, "all parts go: of each guarantee");
+        for (int how = 1; how <= 3; how++) {
+            PortHouse parted = house();
+            for (int n = 1; n <= 3; n++) {
+                parted.guarantee(0, 10, 1, 1, false, 0);
+            }
+            Customs.secured(parted, 0, 0, 25);
+            parts(parted, 1, 1, 10, 2, 10, 3, 5);
+            Check.due(how == 1 ? 1 : how == 2 ? 0 : 25, how == 1 ? parted.cancel(0) : how == 2 ? parted.pay(0, 0)
+                    : parted.claim(0, 0));
+            for (int n = 1; n <= 3; n++) {
+                long taken = how < 3 ? 0 : n < 3 ? 10 : 5;
+                facts(parted, n, 0, 10 - taken, 0, 10 - taken, 10 - taken, 0, 0, 0, taken);
+            }
+        }
     }
 
     private static void ended(PortHouse x, int how) {
