@@ -11,6 +11,8 @@ public final class CountEdgesTest {
         boxes();
         latest();
         states();
+        oneMore();
+        noneMore();
         Check.end();
     }
 
@@ -170,5 +172,97 @@ public final class CountEdgesTest {
         Check.due(1, x.count(20));
         Check.due(14, x.count(21));
         Check.due(2, x.count(22));
+    }
+
+    /** Boxes 0 (stands), 1 (in no row, goods 0 free) and 2 (aboard); what a test needs to make one more of each. */
+    private static PortHouse house() {
+        PortHouse x = new PortHouse(2, 4, 2, 4, 400);
+        Quay.on(x, 0, 2, 5, 1);
+        Quay.loose(x, 0, 2, 9, 1);
+        Quay.freed(x, 1);
+        x.box(1, 0, 0, 0, 2, 5, 1);
+        x.goods(2, 1000);
+        x.row(12, PortHouse.ALL, 0, PortHouse.OPEN, 4, 0, 0);
+        Tape.rate(x, 1, "100%");
+        x.plan(1);
+        x.guarantee(0, 1000, 1, 1, false, 0);
+        x.batch(0, 7);
+        x.entry(0, 3, 1);
+        x.batch(0, 7);
+        x.entry(1, 3, 1);
+        x.entry(1, 4, -1);
+        return x;
+    }
+
+    private static void goesUp(int what, int by, Edge.Act act) {
+        Edge.at(Integer.toString(what));
+        PortHouse x = house();
+        int before = x.count(what);
+        act.on(x);
+        Check.due(before + by, x.count(what));
+    }
+
+    private static void oneMore() {
+        Edge.of(87, "7: boxes IN THE WAY; 8: goods, 9: notices told in all, 10: boxes BEHIND, 11 .. 14: FAILURES of"
+                + " sources 0 .. 3; 15: rows of D, 16: rows in the latest list; 17: signs of the TAPE, 18: signs of what"
+                + " was printed last; 19: orders; 20: guarantees, 21: reservations, 22: LIVE ones, 23: TODAY, 24 .. 27:"
+                + " FAILURES of desks 0 .. 3; 28: batches, 29: entries of the ledger, .. 34: how often a batch FAILED");
+        goesUp(7, 1, x -> x.put(1, 0));
+        goesUp(8, 1, x -> x.goods(0, 1));
+        goesUp(9, 1, x -> x.bar(0, 0, 0, 0));
+        goesUp(10, 1, x -> {
+            x.part(1, 2000);
+            x.gate(1);
+        });
+        for (int source = 0; source < 4; source++) {
+            int s = source;
+            goesUp(11 + source, 1, x -> {
+                x.rule(s, 4, 0);
+                x.release(0);
+            });
+        }
+        goesUp(15, 1, x -> x.row(13, 3, 0, 0, 0, 0, 0));
+        goesUp(16, 1, x -> x.apply(123456, 0, 0, 0));
+        goesUp(17, 8, x -> x.type(0x2020202020202020L, 8));
+        goesUp(18, 4, x -> x.print(1));
+        goesUp(19, 1, x -> x.order(1, 0, 0));
+        goesUp(20, 1, x -> x.guarantee(7, 1, 1, 1, false, 0));
+        goesUp(21, 1, x -> x.assess(x.declare(1, 0, 0, 123456, 0, 0, 5), 0));
+        goesUp(22, 1, x -> x.assess(x.declare(1, 0, 0, 123456, 0, 0, 5), 0));
+        goesUp(23, 9, x -> x.tick(9));
+        for (int desk = 0; desk < 4; desk++) {
+            int d = desk;
+            goesUp(24 + desk, 1, x -> {
+                x.fails(d, true);
+                x.assess(x.declare(1, 0, d, 123456, 0, 0, 5), 0);
+            });
+        }
+        goesUp(28, 1, x -> x.batch(0, 0));
+        goesUp(29, 2, x -> x.post(1));
+        goesUp(34, 1, x -> {
+            x.failing(1, true);
+            Check.thrown(Check.UNSUPPORTED, () -> x.post(1));
+        });
+    }
+
+    private static void noneMore() {
+        Edge.of(87, "23: TODAY, .. 17: signs of the TAPE, 18: signs of what was printed last: as little as there is");
+        goesUp(17, 0, x -> {
+            x.type(0x20L, 1);
+            x.rate(1);
+        });
+        goesUp(18, 0, x -> Check.thrown(Check.ARGUMENT, () -> x.print(2)));
+        goesUp(16, 0, x -> x.apply(999999, 0, 0, 0));
+        goesUp(21, 0, x -> x.assess(x.declare(1, 0, 0, 123456, 0, 0, 0), 0));
+        goesUp(22, 0, x -> {
+            int d = x.declare(1, 0, 0, 123456, 0, 0, 5);
+            x.assess(d, 0);
+            x.pay(d, 0);
+        });
+        goesUp(9, 1, x -> {
+            x.bar(0, 0, 0, 0);
+            x.bar(0, 0, 0, 0);
+        });
+        goesUp(29, 0, x -> Check.thrown(Check.STATE, () -> x.post(0)));
     }
 }
