@@ -217,28 +217,53 @@ public final class BaysEdgesTest {
         }
     }
 
+    /** Bays 1 to 12 but one box are full, and 52 boxes are ashore: 99 in all. */
     private static PortHouse ninetyNine() {
         PortHouse x = new PortHouse(12, 4, 20, 8, 400);
-        for (int box = 0; box < 99; box++) {
-            x.box(0, 0, 0, 0, 1, 5, 1);
-            if (box < 96) {
-                x.plan(0);
-                x.work(0);
+        for (int box = 0; box < 52; box++) {
+            x.box(0, box % 3, 0, 0, 1, 5, 1);
+            if (box % 4 == 3) {
+                workAll(x, 0);
             }
+        }
+        for (int box = 52; box < 99; box++) {
+            Check.due(box, x.box((box - 52) / 4, box % 3, 1, 0, 1, 5, 1));
         }
         return x;
     }
 
+    // So many calls made it that those that show that nothing changed are few.
     private static void boxHundred() {
         Edge.of(2, "IllegalStateException if there are 100");
-        Check.due(99, plain(ninetyNine(), 1, 0, 0));
-        Edge.House full = () -> {
-            PortHouse x = ninetyNine();
-            plain(x, 1, 0, 0);
-            return x;
-        };
-        Edge.thrown(Check.STATE, full, x -> plain(x, 2, 0, 0));
-        Check.due(100, full.make().count(0));
+        Check.due(99, plain(ninetyNine(), 11, 0, 0));
+        PortHouse x = ninetyNine();
+        plain(x, 11, 0, 1);
+        workAll(x, 0);
+        x.plan(11);
+        Edge.of(2, "IllegalStateException if there are 100, or 4 in that bay: both");
+        Check.thrown(Check.STATE, () -> plain(x, 11, 0, 1));
+        Edge.of(2, "IllegalStateException if there are 100: where there is room");
+        PortHouse y = new PortHouse(12, 4, 20, 8, 400);
+        for (int box = 0; box < 100; box++) {
+            y.box(box / 4 % 12, box % 3, 0, 0, 1, 5, 1);
+            if (box % 4 == 3 && box < 96) {
+                workAll(y, box / 4 % 12);
+            }
+        }
+        y.plan(0);
+        int[] counts = {100, 96, 0, 96, 96, 96, 96};
+        for (int times = 0; times < 2; times++) {
+            Check.thrown(Check.STATE, () -> plain(y, 5, 0, 0));
+            for (int what = 0; what < counts.length; what++) {
+                Check.due(counts[what], y.count(what));
+            }
+            Check.due(4, y.count(100));
+            Check.due(0, y.count(105));
+            Check.due(0, y.least(5));
+            Check.thrown(Check.INDEX, () -> y.aboard(100, 0));
+        }
+        Edge.of(2, "Of several exceptions the one told first is thrown");
+        Check.thrown(Check.ARGUMENT, () -> plain(y, 5, 0, 6));
     }
 
     private static void boxFourInBay() {

@@ -128,25 +128,28 @@ public final class GateEdgesTest {
     private static void goodsThreeHundred() {
         Edge.of(20, "IllegalStateException if there are 300");
         Edge.House nearly = () -> {
-            PortHouse x = port();
+            PortHouse x = new PortHouse(1, 4, 1, 1, 1);
+            x.box(0, 0, 1, 0, 40, 5, 1);
+            x.box(0, 0, 1, 0, 40, 5, 1);
             for (int i = 0; i < 299; i++) {
-                x.goods(3, 1);
+                x.goods(0, 1);
             }
             return x;
         };
-        Check.due(299, nearly.make().goods(3, 1));
+        Check.due(299, nearly.make().goods(0, 1));
+        Check.due(299, nearly.make().goods(1, 1));
         Edge.House full = () -> {
             PortHouse x = nearly.make();
-            x.goods(3, 1);
+            x.goods(0, 1);
             return x;
         };
-        Edge.thrown(Check.STATE, full, x -> x.goods(3, 1));
         Edge.thrown(Check.STATE, full, x -> x.goods(0, 1));
-        Edge.thrown(Check.STATE, full, x -> x.goods(3, 39700));
+        Edge.thrown(Check.STATE, full, x -> x.goods(1, 1));
+        Edge.thrown(Check.STATE, full, x -> x.goods(0, 39700));
         Edge.of(20, "Of several exceptions the one told first is thrown");
-        Edge.thrown(Check.ARGUMENT, full, x -> x.goods(3, 39701));
-        Edge.thrown(Check.ARGUMENT, full, x -> x.goods(4, 1));
-        Edge.thrown(Check.ARGUMENT, full, x -> x.goods(3, 0));
+        Edge.thrown(Check.ARGUMENT, full, x -> x.goods(0, 39701));
+        Edge.thrown(Check.ARGUMENT, full, x -> x.goods(2, 1));
+        Edge.thrown(Check.ARGUMENT, full, x -> x.goods(0, 0));
     }
 
     // ---- promises 21, 22
