@@ -683,6 +683,13 @@ public final class BaysEdgesTest {
         plain(y, 0, 0, 3);
         plain(y, 0, 1, 3);
         Check.due(3, y.least(0));
+        Edge.term(7, "one for each other box that lies above such a one in its stack: not in that of another bay");
+        PortHouse z = new PortHouse(2, 4, 4, 4, 100);
+        plain(z, 0, 0, 3);
+        plain(z, 0, 0, 3);
+        plain(z, 1, 0, 0);
+        Check.due(0, z.least(0));
+        Check.due(1, z.least(1));
     }
 
     // ---- promise 8

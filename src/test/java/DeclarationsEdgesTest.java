@@ -948,6 +948,9 @@ public final class DeclarationsEdgesTest {
             int goods = x.goods(box, 1000);
             int d = x.declare(goods, 0, 0, 123456, 3, 5, 100);
             Check.due(11, x.bars(box, 0));
+            Check.due(1, x.cancel(d));
+            Check.due(11, x.bars(box, 0));
+            d = x.declare(goods, 0, 0, 123456, 3, 5, 100);
             x.assess(d, 0);
             Check.due(-1, x.bars(box, 0));
             if (end == 1) {

@@ -258,6 +258,22 @@ public final class QuotasEdgesTest {
         }
         y.run(0, 5);
         has(y, 0, 1, 2, 2, 2, 2);
+        Edge.term(48, "TO TREAT those of a day: what is left goes to none of a later one");
+        PortHouse z = house();
+        z.order(3, 5, 10);
+        Customs.asks(z, 0, 6, 0, 9);
+        Customs.asks(z, 3, 5, 0, 2);
+        Customs.asks(z, 3, 5, 0, 2);
+        Check.due(2, z.run(0, 10));
+        has(z, 0, 0, 2, 1);
+        Edge.term(48, "to those that have less than their amount: not to one whose AMOUNT is 0");
+        PortHouse none = house();
+        none.order(3, 5, 10);
+        none.cancel(Customs.asks(none, 0, 5, 0, 9));
+        Customs.asks(none, 3, 5, 0, 2);
+        Customs.asks(none, 3, 5, 0, 2);
+        Check.due(2, none.run(0, 10));
+        has(none, 0, 0, 2, 1);
     }
 
     private static void treatNothing() {
