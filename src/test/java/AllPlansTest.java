@@ -3,10 +3,12 @@ import java.util.List;
 
 /**
  * Promises 4, 5 and 7 for every bay that can be: all ways to lie in three stacks, all that leave HERE or later, all
- * needs. Each plan is compared with the model's, which is found by another kind of search.
+ * needs. Each plan is compared with the model's, which is found by another kind of search. With four boxes in a bay at
+ * most there always is a plan, and none goes ASIDE: what the document says of NONE and of ASIDE is never met.
  */
 public final class AllPlansTest {
     private static final int MOST_IN_BAY = 4;
+    private static final int ASIDE = 4;
 
     private final int tiers;
     private final int[] heights;
@@ -96,11 +98,13 @@ public final class AllPlansTest {
         plans++;
         longest = Math.max(longest, moves);
         Check.due(m.plan(0), moves);
+        Check.due(true, moves >= 0);
         Check.due(true, x.least(0) <= moves);
         for (int i = 0; i < moves; i++) {
             for (int what = 0; what < 3; what++) {
                 Check.due(m.move(0, i, what), x.move(0, i, what));
             }
+            Check.due(true, x.move(0, i, 1) < ASIDE - 1 && x.move(0, i, 2) < ASIDE);
         }
     }
 }
