@@ -1,4 +1,6 @@
+import java.io.DataInputStream;
 import java.io.IOException;
+import java.io.InputStream;
 import java.lang.reflect.Constructor;
 import java.lang.reflect.Field;
 import java.lang.reflect.Method;
@@ -103,10 +105,21 @@ public final class FaceTest {
         "int count(int)"
     };
 
+    private static final String[] LIBRARY = {
+        "java/lang/Object\\.<init>\\(\\)V",
+        "java/lang/(IllegalState|IllegalArgument|IndexOutOfBounds|UnsupportedOperation)Exception"
+            + "\\.<init>\\((Ljava/lang/String;)?\\)V",
+        "java/lang/String\\.(length|charAt|isEmpty)\\(.*",
+        "java/lang/(Math|Integer|Long)\\.(max|min|abs|compare|bitCount|floorDiv|floorMod)\\([IJ]+\\)[IJ]",
+        "java/lang/System\\.arraycopy\\(.*",
+        "java/util/Arrays\\.(copyOf|copyOfRange|fill)\\(\\[[IJ].*"
+    };
+
     public static void main(String[] args) throws IOException {
         face();
         constants();
         classesInside();
+        library();
         if (args.length > 0) {
             source(Files.readString(Path.of(args[0])));
         }
@@ -173,8 +186,73 @@ public final class FaceTest {
             Check.due(true, fields <= 20);
             for (Method m : c.getDeclaredMethods()) {
                 Check.due(true, m.getParameterCount() <= 7);
+                Check.due("", isOfTheFace(m.getName()) ? m.getName() : "");
             }
         }
+    }
+
+    private static boolean isOfTheFace(String name) {
+        for (String call : CALLS) {
+            if (call.startsWith(name + "(", call.indexOf(' ') + 1)) {
+                return true;
+            }
+        }
+        return false;
+    }
+
+    // What the compiled classes call outside of themselves, with the types.
+    private static void library() throws IOException {
+        Check.topic("LANGUAGE.md, rule 4: the library");
+        Set<String> called = new TreeSet<>(outsideCalls(PortHouse.class));
+        for (Class<?> c : PortHouse.class.getDeclaredClasses()) {
+            called.addAll(outsideCalls(c));
+        }
+        Check.due(true, called.contains("java/lang/Object.<init>()V"));
+        for (String one : called) {
+            boolean listed = false;
+            for (String allowed : LIBRARY) {
+                listed |= one.matches(allowed);
+            }
+            Check.due(one, listed ? one : "not in the library that is listed");
+        }
+    }
+
+    private static Set<String> outsideCalls(Class<?> c) throws IOException {
+        try (InputStream in = c.getResourceAsStream("/" + c.getName() + ".class")) {
+            return outsideCalls(new DataInputStream(in));
+        }
+    }
+
+    private static Set<String> outsideCalls(DataInputStream in) throws IOException {
+        in.skipNBytes(8);
+        int size = in.readUnsignedShort();
+        String[] texts = new String[size];
+        int[] kinds = new int[size];
+        int[] pairs = new int[size];
+        for (int i = 1; i < size; i++) {
+            kinds[i] = in.readUnsignedByte();
+            switch (kinds[i]) {
+                case 1 -> texts[i] = in.readUTF();
+                case 7, 8, 16, 19, 20 -> pairs[i] = in.readUnsignedShort();
+                case 15 -> in.skipNBytes(3);
+                case 5, 6 -> {
+                    in.skipNBytes(8);
+                    i++;
+                }
+                default -> pairs[i] = in.readInt();
+            }
+        }
+        Set<String> found = new TreeSet<>();
+        for (int i = 1; i < size; i++) {
+            if (kinds[i] >= 9 && kinds[i] <= 11) {
+                String owner = texts[pairs[pairs[i] >>> 16]];
+                int named = pairs[pairs[i] & 0xFFFF];
+                if (!owner.startsWith("PortHouse")) {
+                    found.add(owner + "." + texts[named >>> 16] + texts[named & 0xFFFF]);
+                }
+            }
+        }
+        return found;
     }
 
     private static void source(String text) {
