@@ -1421,7 +1421,7 @@ public final class PortHouse {
             parents[0] = NONE;
             size = 1;
             goal = isEnd(code) ? 0 : NONE;
-            for (int i = 0; i < size && goal == NONE; i++) {
+            for (int i = 0; i < STATES && i < size && goal == NONE; i++) {
                 goOnFrom(i);
             }
             return goal == NONE ? NONE : trace();
