@@ -2364,7 +2364,7 @@ public final class PortHouse {
             while (place < tapeSize && tape[place] == ' ') {
                 place++;
             }
-            return signAt(place);
+            return place < tapeSize ? tape[place] : ENDED;
         }
 
         private boolean pass(char sign) {
@@ -2473,7 +2473,7 @@ public final class PortHouse {
 
         private int runOfDigits(int start) {
             int length = 0;
-            while (start + length < tapeSize && isDigit(signAt(start + length))) {
+            while (start + length < tapeSize && tape[start + length] >= '0' && tape[start + length] <= '9') {
                 length++;
             }
             return length;
@@ -2501,8 +2501,8 @@ public final class PortHouse {
 
         private int digits(int start, int length) {
             int number = 0;
-            for (int i = 0; i < length; i++) {
-                number = number * 10 + signAt(start + i) - '0';
+            for (int i = start; i < start + length && i < tapeSize; i++) {
+                number = number * 10 + tape[i] - '0';
             }
             return number;
         }
